@@ -1,0 +1,153 @@
+/** Promises 62 and 63: snapshots. */
+public final class SnapshotTests {
+    private static final Check CHECK = new Check("SnapshotTests");
+    private static final String TEXT = "machine 2 10; times 31 11 9 12; vision 50 30 2; camera 77 88; alarm 3; wear 4 20 21; seed 8; nozzles 2 1;"
+        + "kind 1; kind 0; feeder 0 10 20 20; feeder 1 20 20 20; spot 0 1 1; spot 0 2 2; spot 1 3 3; spot 1 4 4; before 0 1; before 2 3";
+
+    public static void main(String[] args) {
+        promise62();
+        promise63();
+        promise63Whole();
+        promise63Layouts();
+        CHECK.end();
+    }
+
+    private static void promise62() {
+        PlacerHead x = Check.machine(TEXT);
+        CHECK.same("saveSnapshot(1) at first", x.saveSnapshot(1), 0);
+        x.run(5);
+        CHECK.same("saveSnapshot(0)", x.saveSnapshot(0), x.now());
+        CHECK.argument("saveSnapshot(2)", () -> x.saveSnapshot(2));
+        CHECK.argument("saveSnapshot(-1)", () -> x.saveSnapshot(-1));
+    }
+
+    private static void promise63() {
+        PlacerHead x = Check.machine(TEXT);
+        x.run(5);
+        int then = x.now();
+        x.saveSnapshot(0);
+        x.run(5);
+        int later = x.now();
+        CHECK.same("restoreSnapshot(1), nothing there", x.restoreSnapshot(1), PlacerHead.NONE);
+        CHECK.same("now() stays", x.now(), later);
+        CHECK.same("restoreSnapshot(0)", x.restoreSnapshot(0), then);
+        CHECK.same("now()", x.now(), then);
+        x.run(5);
+        CHECK.same("now() again", x.now(), later);
+        CHECK.same("restoreSnapshot(0): it stays", x.restoreSnapshot(0), then);
+        x.run(5);
+        x.saveSnapshot(0);
+        x.run(5);
+        CHECK.same("restoreSnapshot(0), a later one", x.restoreSnapshot(0), later);
+        CHECK.argument("restoreSnapshot(2)", () -> x.restoreSnapshot(2));
+        CHECK.argument("restoreSnapshot(-1)", () -> x.restoreSnapshot(-1));
+        CHECK.same("append", x.append('m'), 1);
+        x.restoreSnapshot(0);
+        CHECK.same("append(0): the buffer is no part of it", x.append(0), 1);
+        x.load();
+        CHECK.same("loadError()", x.loadError(), 1);
+        x.restoreSnapshot(0);
+        CHECK.same("loadError(): the result is no part of it", x.loadError(), 1);
+    }
+
+    /** Everything that can be asked without changing anything. */
+    private static String state(PlacerHead x) {
+        StringBuilder all = new StringBuilder();
+        for (int what = 0; what <= 14; what++) {
+            all.append(x.setting(what)).append(' ');
+        }
+        for (int what = 0; what <= 5; what++) {
+            all.append(x.count(what)).append(' ');
+        }
+        for (int what = 0; what <= 7; what++) {
+            for (int i = 0; i < x.count(0); i++) {
+                all.append(x.spindleValue(i, what)).append(' ');
+            }
+            for (int i = 0; i < x.count(3); i++) {
+                all.append(x.feederValue(i, what)).append(' ');
+            }
+        }
+        for (int i = 0; i < x.count(1); i++) {
+            all.append(x.freeNozzles(i)).append(' ');
+        }
+        for (int i = 0; i < x.count(2); i++) {
+            all.append(x.nozzleFor(i)).append(' ').append(x.openSpots(i)).append(' ').append(x.nearestFeeder(i)).append(' ');
+            for (int what = 0; what <= 6; what++) {
+                all.append(x.ledger(i, what)).append(' ');
+            }
+        }
+        for (int i = 0; i < x.count(4); i++) {
+            for (int what = 0; what <= 5; what++) {
+                all.append(x.spotValue(i, what)).append(' ');
+            }
+            all.append(x.blockedBy(i)).append(' ').append(x.chain(i)).append(' ');
+        }
+        for (int action = 1; action <= 6; action++) {
+            all.append(x.done(action)).append(' ').append(x.timeOf(action)).append(' ');
+        }
+        for (int i = 0; i < 40; i++) {
+            all.append(x.logEntry(i, 0)).append(' ').append(x.logEntry(i, 1)).append(' ').append(x.logEntry(i, 2)).append(' ');
+        }
+        all.append(x.logSize()).append(' ').append(x.now()).append(' ').append(x.head(0)).append(' ').append(x.head(1)).append(' ');
+        all.append(x.boards()).append(' ').append(x.isHalted()).append(' ').append(x.lookRate()).append(' ').append(x.nextAction());
+        return all.append(' ').append(x.actionsToEnd()).append(' ').append(x.splicesAhead()).toString();
+    }
+
+    /** Restores a state that has gone through much, and goes on from it in the same way. */
+    private static void promise63Whole() {
+        PlacerHead x = Check.machine(TEXT);
+        x.splice(0, 2);
+        x.splice(1, 3);
+        x.takeReel(1);
+        for (int i = 0; i < 12; i++) {
+            x.run(6);
+            String then = state(x);
+            x.saveSnapshot(i % 2);
+            change(x, i);
+            String later = state(x);
+            CHECK.no("the state has changed", then.equals(later));
+            x.restoreSnapshot(i % 2);
+            CHECK.yes("the state is as it was saved", then.equals(state(x)));
+            change(x, i);
+            CHECK.yes("it goes on as before", later.equals(state(x)));
+        }
+    }
+
+    private static void change(PlacerHead x, int i) {
+        x.resume();
+        x.run(9 + i);
+        x.resume();
+        x.splice(0, 5 + i);
+        x.splice(1, 4);
+        x.takeReel(0);
+        x.set(0, 20 + i);
+        x.setMiss(0, 10 + i);
+        x.moveFeeder(1, 100 + i);
+        x.leaveOut(1, i % 2 == 0);
+        x.dropBefore(0, 1);
+        x.addBefore(i % 4, 3);
+        x.newBoard();
+        x.run(30);
+    }
+
+    private static void promise63Layouts() {
+        PlacerHead x = Check.machine(TEXT);
+        x.run(7);
+        String then = state(x);
+        x.saveSnapshot(0);
+        Check.type(x, "machine 4 1; nozzles 1 1 1; kind 2; kind 1; kind 0; feeder 2 5 5 5; feeder 0 7 7 7; feeder 1 8 8 8;"
+            + "spot 2 9 9; spot 1 9 9; spot 2 9 9; spot 0 9 9; spot 0 9 9; before 4 0; before 3 1; before 0 2");
+        CHECK.same("load()", x.load(), 5);
+        x.run(20);
+        String other = state(x);
+        x.saveSnapshot(1);
+        x.restoreSnapshot(0);
+        CHECK.yes("the first description", then.equals(state(x)));
+        CHECK.index("spotValue(4, 0)", () -> x.spotValue(4, 0));
+        CHECK.index("spindleValue(2, 0)", () -> x.spindleValue(2, 0));
+        x.restoreSnapshot(1);
+        CHECK.yes("the second description", other.equals(state(x)));
+        x.restoreSnapshot(0);
+        CHECK.yes("the first description again", then.equals(state(x)));
+    }
+}
