@@ -656,10 +656,6 @@ public final class PlacerHead {
         private int rejected;
         private int wear;
 
-        private Spindle() {
-            clear();
-        }
-
         private void clear() {
             nozzle = NONE;
             dropPart();

@@ -78,6 +78,20 @@ public final class DescriptionTests {
         CHECK.same("load() of 900 bytes", x.load(), 0);
         CHECK.same("setting(0) of 900 bytes", x.setting(0), 3);
         CHECK.same("append anew", x.append('m'), 1);
+        nearlyFullBuffer();
+    }
+
+    private static void nearlyFullBuffer() {
+        PlacerHead x = new PlacerHead();
+        Check.type(x, " ".repeat(893));
+        CHECK.same("append of eight at 893", x.append(0x0101010101010101L), PlacerHead.FULL);
+        CHECK.same("append of seven and a zero at 893", x.append(0x0101010001010101L), 900);
+        for (int shift = 0; shift < 64; shift += 8) {
+            CHECK.same("append of byte 1 at 900", x.append(1L << shift), PlacerHead.FULL);
+            CHECK.same("append of byte 128 at 900", x.append(128L << shift), PlacerHead.FULL);
+        }
+        CHECK.same("append of no byte at 900", x.append(0), 900);
+        CHECK.same("load() of spaces and others", x.load(), -993);
     }
 
     /** A text that is wrong at the place of its sign |, which is not part of it. */
