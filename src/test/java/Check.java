@@ -24,6 +24,14 @@ final class Check {
         same(call, got ? 1 : 0, 0);
     }
 
+    void text(String call, String got, String want) {
+        asked++;
+        if (!got.equals(want)) {
+            wrong++;
+            System.out.println(name + ": " + call + " answered\n  " + got + "\ndue is\n  " + want);
+        }
+    }
+
     void index(String call, Runnable run) {
         throwsJust(call, run, IndexOutOfBoundsException.class);
     }
@@ -102,5 +110,52 @@ final class Check {
             }
         }
         throw new IllegalStateException("no such seed");
+    }
+
+    /**
+     * Everything that can be asked without changing anything. These are more calls than an object is promised to be used
+     * for; the program counts none, so that they may be asked all the same.
+     */
+    static String state(PlacerHead x) {
+        StringBuilder all = new StringBuilder();
+        for (int what = 0; what <= 14; what++) {
+            all.append(x.setting(what)).append(' ');
+        }
+        for (int what = 0; what <= 5; what++) {
+            all.append(x.count(what)).append(' ');
+        }
+        for (int what = 0; what <= 7; what++) {
+            for (int i = 0; i < x.count(0); i++) {
+                all.append(x.spindleValue(i, what)).append(' ');
+            }
+            for (int i = 0; i < x.count(3); i++) {
+                all.append(x.feederValue(i, what)).append(' ');
+            }
+        }
+        for (int i = 0; i < x.count(1); i++) {
+            all.append(x.freeNozzles(i)).append(' ');
+        }
+        for (int i = 0; i < x.count(2); i++) {
+            all.append(x.nozzleFor(i)).append(' ').append(x.openSpots(i)).append(' ').append(x.nearestFeeder(i)).append(' ');
+            for (int what = 0; what <= 6; what++) {
+                all.append(x.ledger(i, what)).append(' ');
+            }
+        }
+        for (int i = 0; i < x.count(4); i++) {
+            for (int what = 0; what <= 5; what++) {
+                all.append(x.spotValue(i, what)).append(' ');
+            }
+            all.append(x.blockedBy(i)).append(' ').append(x.chain(i)).append(' ');
+        }
+        for (int action = 1; action <= 6; action++) {
+            all.append(x.done(action)).append(' ').append(x.timeOf(action)).append(' ');
+        }
+        for (int i = 0; i < 40; i++) {
+            all.append(x.logEntry(i, 0)).append(' ').append(x.logEntry(i, 1)).append(' ').append(x.logEntry(i, 2)).append(' ');
+        }
+        all.append(x.logSize()).append(' ').append(x.now()).append(' ').append(x.head(0)).append(' ').append(x.head(1)).append(' ');
+        all.append(x.boards()).append(' ').append(x.isHalted()).append(' ').append(x.lookRate()).append(' ').append(x.nextAction());
+        all.append(' ').append(x.filledSet()).append(' ').append(x.fillableSet()).append(' ').append(x.isBalanced());
+        return all.append(' ').append(x.actionsToEnd()).append(' ').append(x.splicesAhead()).toString();
     }
 }

@@ -10,7 +10,13 @@ public final class DescriptionTests {
         promise3Ranges();
         promise3Limits();
         promise3Circles();
+        promise3Statements();
+        promise3Bytes();
+        promise3FirstError();
+        promise3Defaults();
         promise3BeginsAnew();
+        promise3AsNew();
+        promise3Counts();
         promise4();
         promise5();
         promise6();
@@ -269,6 +275,209 @@ public final class DescriptionTests {
         wrong(4, spots + "; before 3 4; before 2 3; before 1 2; before 4 |01");
         wrong(4, spots + "; before 3 4; before 2 3; before 1 2; before 4 |1; kind 9");
         right(spots + "; before 0 1; before 0 2; before 1 3; before 2 3; before 0 3", 5);
+    }
+
+    /** Each statement: numbers that are missing, that come beyond the last one, or in whose place something else stands. */
+    private static void promise3Statements() {
+        String before = "machine 1 1;nozzles 1;kind 0;spot 0 1 1;spot 0 1 1;";
+        String[] statements = {"times 1 2 3 4", "vision 5 6 5", "camera 1 2", "seed 1", "alarm 2", "wear 1 2 3", "kind 0", "feeder 0 1 2 3",
+            "spot 0 1 2", "before 0 1", "nozzles 1"};
+        for (String statement : statements) {
+            right(before + statement, statement.startsWith("spot") ? 3 : 2);
+            right(before + statement.replaceFirst(" ", "") + " ", statement.startsWith("spot") ? 3 : 2);
+            String[] parts = statement.split(" ");
+            String told = before + parts[0];
+            for (int i = 1; i < parts.length; i++) {
+                wrong(1, told + "|");
+                wrong(1, told + "  |");
+                wrong(1, told + "|;kind 0");
+                wrong(1, told + " |;");
+                wrong(1, told + " |x");
+                wrong(1, told + " |-1");
+                wrong(1, told + "|\u00ff");
+                told = told + " " + parts[i];
+            }
+            if (!parts[0].equals("nozzles")) {
+                wrong(1, told + " |0");
+            }
+            wrong(1, told + "|kind 0");
+            wrong(1, told + "  |" + parts[0]);
+            wrong(1, told + ";|" + parts[0] + "s 1 1 1 1");
+            wrong(1, told + ";|" + parts[0].substring(1) + " 1 1 1 1");
+            wrong(1, told + ";|x" + parts[0].substring(1) + " 1 1 1 1");
+            wrong(1, told + ";|" + parts[0].substring(0, parts[0].length() - 1) + " 1 1 1 1");
+            wrong(1, told + ";|" + parts[0].substring(0, parts[0].length() - 1) + "x 1 1 1 1");
+            wrong(1, told + ";|" + parts[0].toUpperCase() + " 1 1 1 1");
+        }
+    }
+
+    /** The bytes next to letters, digits, the space and the semicolon; spaces are required between two numbers alone. */
+    private static void promise3Bytes() {
+        String signs = "/:`{@[!\u001f<\t\n\r,.-+_\u0080\u00a0\u00bb\u00b1\u00e1\u00ff\u0001";
+        for (int i = 0; i < signs.length(); i++) {
+            char sign = signs.charAt(i);
+            wrong(1, "|" + sign + "machine 1 1");
+            wrong(1, "machine |" + sign + "1 1");
+            wrong(1, "machine 1|" + sign + "1");
+            wrong(1, "machine 1 1|" + sign);
+            wrong(1, "machine 1 1;|" + sign + "seed 1");
+            wrong(1, "machine 1 1;seed 1|" + sign + ";");
+        }
+        wrong(1, "|mach" + "ine".toUpperCase() + " 1 1");
+        wrong(1, "|mach ine 1 1");
+        wrong(2, "machine |11");
+        wrong(1, "machine 1 1;times 1 1 11|");
+        wrong(1, "machine 1 1;seed |;1");
+        right("machine 1 1;seed1;alarm2", 0);
+        right(" machine  1  1 ; seed 1 ;alarm 2 ", 0);
+        right("machine 1 1;nozzles 1;kind0;feeder0 1 1 1;spot0 1 1;spot0 1 1;before0 1", 2);
+        right("machine " + "0".repeat(800) + "4 1", 0);
+        wrong(2, "machine |" + "0".repeat(800) + "5 1");
+        wrong(2, "machine |" + "9".repeat(800) + " 1");
+        wrong(2, "machine 1 1;seed |2147483648");
+        wrong(2, "machine 1 1;seed |4294967296");
+        wrong(2, "machine 1 1;seed |18446744073709551617");
+        wrong(2, "machine 1 1;seed |01000000");
+        right("machine 1 1;seed 0999999", 0);
+        right("machine 1 1;vision 100 0 0;vision 0 100 0;vision 50 50 5", 0);
+        wrong(2, "machine 1 1;vision 100 |1 0");
+        wrong(2, "machine 1 1;vision 0 |101 0");
+        wrong(2, "machine 1 1;vision 0 100 0;vision 60 |41 0");
+    }
+
+    /** The text is read from left to right; the first error ends it, whatever comes behind. */
+    private static void promise3FirstError() {
+        String some = "machine 1 1;nozzles 1 1;kind 0;spot 0 1 1;spot 0 1 1;spot 0 1 1;before 0 1";
+        String[] marked = {";before 1 |0", ";before 2 |2", ";kind |2", ";spot |1 5", ";spot 0 |1000", ";seed |1000000", ";seed |x", ";|seeds",
+            " |0", ";nozzles 1 1 1 1 |1 1", ";nozzles |5 x"};
+        int[] errors = {4, 4, 2, 2, 2, 2, 1, 1, 1, 3, 2};
+        String[] behind = {"", ";before 1 1", ";kind 9", ";", ";;", "\u00ff", " 0 0 0 0", ";machine 1 1", "x"};
+        for (int i = 0; i < marked.length; i++) {
+            for (String rest : behind) {
+                wrong(errors[i], some + marked[i] + (marked[i].endsWith("x") || marked[i].endsWith("s") ? " " : "") + rest);
+            }
+        }
+        String kinds = "machine 1 1;nozzles 1" + ";kind 0".repeat(8);
+        wrong(2, kinds + ";seed |1000000;kind 0");
+        wrong(3, kinds + ";|kind 0;seed 1000000");
+        wrong(2, kinds + ";spot 0 1 1;before |1 1");
+        wrong(2, kinds + ";spot 0 1 1;before 0 |1");
+        wrong(4, kinds + ";spot 0 1 1;before 0 |0");
+        wrong(2, "machine |0 0");
+        wrong(2, "machine 1 1;feeder |0 1000 501 101");
+        wrong(1, "machine 1 1;nozzles 1;kind 0;feeder 0 0 |;kind 9");
+    }
+
+    /** Without their statements the settings are those of section 1, whatever they were before. */
+    private static void promise3Defaults() {
+        PlacerHead x = Check.machine("machine 4 50;times 1 2 3 4;vision 10 90 5;camera 7 8;seed 99;alarm 20;wear 200 100 5");
+        Check.type(x, "machine 2 7");
+        x.load();
+        int[] settings = {7, 30, 10, 8, 10, 90, 6, 2, 500, 0, 1, 0, 0, 0, 20};
+        for (int what = 0; what < settings.length; what++) {
+            CHECK.same("without it: setting(" + what + ")", x.setting(what), settings[what]);
+        }
+        CHECK.text("a new object", Check.state(new PlacerHead()), Check.state(Check.machine("machine 1 10")));
+    }
+
+    private static final String BUSY = "machine 4 9; times 1 2 3 4; vision 60 20 2; camera 80 90; alarm 3; wear 3 20 5; seed 8; nozzles 2 2 1 1 1 4;"
+        + "kind 1; kind 0; kind 5; feeder 0 10 3 20; feeder 1 20 9 20; feeder 2 30 9 0; feeder 0 40 9 0; feeder 1 0 9 9; feeder 2 0 9 9; feeder 2 900 0 0;"
+        + "spot 0 1 1; spot 0 2 2; spot 1 3 3; spot 1 4 4; spot 2 5 5; spot 2 6 6; before 0 1; before 2 3";
+
+    /** Everything has happened: spot 4 is filled, spot 5 left out, feeder 6 was spliced, and two looks count for ALARM. */
+    private static PlacerHead busy() {
+        PlacerHead x = Check.machine(BUSY);
+        x.splice(0, 0);
+        x.splice(0, 4);
+        x.splice(1, 6);
+        x.takeReel(1);
+        for (int i = 0; i < 9; i++) {
+            x.newBoard();
+            x.resume();
+            x.run(40);
+        }
+        for (int spindle = 0; spindle < 4; spindle++) {
+            x.discard(spindle);
+            x.changeNozzle(spindle, 5 - spindle);
+        }
+        x.newBoard();
+        x.setMiss(5, 0);
+        x.set(6, 0);
+        x.set(5, 100);
+        takePart(x);
+        CHECK.same("look(0)", x.look(0), 1);
+        CHECK.same("place(0, 4)", x.place(0, 4), 1);
+        x.set(5, 0);
+        for (int i = 0; i < 2; i++) {
+            takePart(x);
+            CHECK.same("look(0)", x.look(0), 2);
+        }
+        takePart(x);
+        x.splice(1, 5);
+        x.splice(6, 0);
+        x.leaveOut(5, true);
+        return x;
+    }
+
+    /** Spindle 0 takes a part of feeder 5, with a nozzle that is clean; the first pick may fail by a splice. */
+    private static void takePart(PlacerHead x) {
+        x.splice(5, 9);
+        x.clean(0);
+        for (int i = 0; i < 2 && x.spindleValue(0, 1) == PlacerHead.NONE; i++) {
+            x.pick(0, 5);
+        }
+        CHECK.same("spindleValue(0, 1)", x.spindleValue(0, 1), 2);
+    }
+
+    /** load() begins anew: as a new object that reads the text, also behind predictions and behind a text that is wrong. */
+    private static void promise3AsNew() {
+        String[] texts = {"machine 1 10", BUSY, "machine 4 1", "machine 2 3; nozzles 1; kind 0; feeder 0 5 5 5; spot 0 5 5",
+            "machine 3 4; nozzles 1 1; kind 1; kind 0; feeder 1 5 5 5; feeder 0 6 6 6; spot 1 5 5; spot 1 6 6; spot 0 7 7; spot 0 8 8"};
+        for (String text : texts) {
+            String due = Check.state(Check.machine(text));
+            for (int way = 0; way < 4; way++) {
+                PlacerHead x = busy();
+                if (way == 1) {
+                    x.actionsToEnd();
+                } else if (way == 2) {
+                    x.look(0);
+                    x.filledAtEnd();
+                } else if (way == 3) {
+                    Check.type(x, BUSY + ";");
+                    x.load();
+                }
+                Check.type(x, text);
+                x.load();
+                CHECK.text("the state behind load(), " + way + ", of \"" + text + "\"", Check.state(x), due);
+                CHECK.same("append(0) behind load()", x.append(0), 0);
+            }
+        }
+        PlacerHead halted = busy();
+        halted.look(0);
+        CHECK.yes("isHalted()", halted.isHalted());
+        CHECK.same("actionsToEnd(), halted", halted.actionsToEnd(), 0);
+        Check.type(halted, BUSY);
+        halted.load();
+        CHECK.no("isHalted() behind load()", halted.isHalted());
+    }
+
+    /** load() begins anew: looks of before count no more for ALARM, and snapshots stay. */
+    private static void promise3Counts() {
+        PlacerHead x = busy();
+        x.saveSnapshot(0);
+        x.actionsToEnd();
+        Check.type(x, "machine 1 10; vision 0 0 0; alarm 3; nozzles 1; kind 0; feeder 0 0 9 0; spot 0 0 0");
+        x.load();
+        CHECK.same("actionsToEnd(): a change, then a pick and a look three times", x.actionsToEnd(), 7);
+        CHECK.same("run(5)", x.run(5), 5);
+        CHECK.no("isHalted() behind two looks", x.isHalted());
+        CHECK.same("run(500)", x.run(500), 2);
+        CHECK.yes("isHalted() behind three", x.isHalted());
+        CHECK.same("lookRate(): good looks of before count no more", x.lookRate(), 0);
+        CHECK.same("restoreSnapshot(1), nothing saved", x.restoreSnapshot(1), PlacerHead.NONE);
+        PlacerHead y = busy();
+        CHECK.same("restoreSnapshot(0)", x.restoreSnapshot(0), y.now());
+        CHECK.text("the state behind restoreSnapshot(0)", Check.state(x), Check.state(y));
     }
 
     private static void promise3BeginsAnew() {

@@ -143,6 +143,14 @@ public final class LedgerTests {
         PlacerHead y = new PlacerHead();
         CHECK.same("shareOf(1) at time 0", y.shareOf(1), PlacerHead.NONE);
         CHECK.argument("shareOf(0) at time 0", () -> y.shareOf(0));
+        PlacerHead still = Check.machine("machine 1 1; times 0 0 0 0; nozzles 1 1; kind 0");
+        still.changeNozzle(0, 0);
+        CHECK.same("shareOf(1) at time 0, done once", still.shareOf(1), PlacerHead.NONE);
+        CHECK.same("timeOf(1) at time 0, done once", still.timeOf(1), 0);
+        still.set(1, 1);
+        still.changeNozzle(0, 1);
+        CHECK.same("shareOf(1) at time 1", still.shareOf(1), 1000);
+        CHECK.same("shareOf(2) at time 1", still.shareOf(2), 0);
         PlacerHead z = Check.machine("machine 1 1; times 200 200 200 200; vision 0 0 0; camera 999 0; nozzles 1; kind 0;"
             + "feeder 0 0 500 0; spot 0 1 1");
         for (int i = 0; i < 20; i++) {

@@ -11,11 +11,14 @@ public final class PredictionTests {
         promise51();
         promise52();
         promise53();
+        promise52Blocked();
         promise54();
+        promise54Edges();
         promise55();
         promise56();
         promise57();
         promise57Ties();
+        promise57Most();
         promise58();
         promise58Ends();
         promise59();
@@ -23,6 +26,9 @@ public final class PredictionTests {
         promise60();
         promise61();
         changeNothing();
+        followTheState();
+        comeTrue();
+        bestByTrying();
         CHECK.end();
     }
 
@@ -167,6 +173,58 @@ public final class PredictionTests {
         CHECK.same("boardsPossible() without spots", z.boardsPossible(), 1000);
     }
 
+    private static void promise52Blocked() {
+        PlacerHead x = Check.machine(LINE + "feeder 0 10 1 0; spot 0 30 0; spot 0 30 0; before 0 1");
+        CHECK.same("shortage(0): blocked spots are open", x.shortage(0), 1);
+        CHECK.same("shortageFor(0, 1): as shortage", x.shortageFor(0, 1), 1);
+        x.splice(0, 1);
+        CHECK.same("shortage(0), just as many", x.shortage(0), 0);
+        x.splice(0, 1);
+        CHECK.same("shortage(0), one too many", x.shortage(0), 0);
+        x.splice(0, 0);
+        x.takeReel(0);
+        x.takeReel(0);
+        x.takeReel(0);
+        CHECK.same("shortage(0), two taken away", x.shortage(0), 1);
+        x.leaveOut(0, true);
+        x.leaveOut(1, true);
+        CHECK.same("shortage(0), all left out", x.shortage(0), 0);
+        CHECK.same("shortageFor(0, 1000), all left out", x.shortageFor(0, 1000), 0);
+        PlacerHead y = Check.machine("machine 1 1; nozzles 1; kind 0;" + repeated("spot 0 1 1", 40));
+        CHECK.same("shortageFor(0, 1000) of 40 spots", y.shortageFor(0, 1000), 40000);
+    }
+
+    private static void promise54Edges() {
+        PlacerHead x = Check.machine(LINE + "feeder 0 10 2 0;" + repeated("spot 0 30 0", 3));
+        CHECK.same("boardsPossible(), one part is missing on this one", x.boardsPossible(), 0);
+        x.splice(0, 1);
+        CHECK.same("boardsPossible(), just enough for this one", x.boardsPossible(), 1);
+        x.splice(0, 2);
+        CHECK.same("boardsPossible(), one is missing for the second one", x.boardsPossible(), 1);
+        x.splice(0, 1);
+        CHECK.same("boardsPossible(), just enough for two", x.boardsPossible(), 2);
+        x.run(2);
+        CHECK.same("boardsPossible(), one of them is held", x.boardsPossible(), 2);
+        x.run(2);
+        CHECK.same("boardsPossible(), one of them is placed", x.boardsPossible(), 2);
+        x.discard(0);
+        x.pick(0, 0);
+        x.discard(0);
+        CHECK.same("boardsPossible(), one is rejected", x.boardsPossible(), 1);
+        PlacerHead y = Check.machine(LINE + "kind 0; feeder 0 10 1 0; feeder 1 10 500 0; spot 0 1 1; spot 1 1 1");
+        y.splice(1, 500);
+        CHECK.same("boardsPossible(): the kind that is missing first", y.boardsPossible(), 1);
+        y.leaveOut(0, true);
+        CHECK.same("boardsPossible() of 1000 parts", y.boardsPossible(), 1000);
+        PlacerHead z = Check.machine(LINE + "feeder 0 10 500 0; spot 0 30 0");
+        z.splice(0, 498);
+        CHECK.same("boardsPossible() of 998 parts", z.boardsPossible(), 998);
+        z.splice(0, 1);
+        CHECK.same("boardsPossible() of 999 parts", z.boardsPossible(), 999);
+        z.splice(0, 2);
+        CHECK.same("boardsPossible() of 1001 parts", z.boardsPossible(), 1000);
+    }
+
     private static void promise55() {
         PlacerHead x = Check.machine(LINE + "feeder 0 10 2 0; feeder 0 900 3 0; feeder 0 950 0 0; feeder 0 990 4 0;" + repeated("spot 0 30 0", 5));
         // the feeders 0 and 1 have the nearer parts: picks are the actions 2, 5, 8, 11, 14
@@ -232,6 +290,29 @@ public final class PredictionTests {
         y.step();
         // RETRIES 0: rejected, then a pick draws the second number, and a look the third: two looks; 1: three looks
         CHECK.same("bestRetries(), rejecting is earlier", y.bestRetries(), 0);
+    }
+
+    /** The most spots come first, also if fewer are earlier; RETRIES up to 5 are tried. */
+    private static void promise57Most() {
+        PlacerHead x = Check.machine(LINE + "vision 50 50 0; seed " + Check.seedFor(0, 99, 50, 99, 50, 99, 50, 99, 50, 99, 50, 99, 0, 49)
+            + "; feeder 0 10 1 0; spot 0 30 0");
+        CHECK.same("bestRetries(), the greatest one", x.bestRetries(), 5);
+        PlacerHead y = Check.machine(LINE + "vision 50 50 5; seed " + Check.seedFor(0, 99, 0, 49) + "; feeder 0 10 1 0; spot 0 30 0");
+        CHECK.same("bestRetries(), the same with each: the smallest one", y.bestRetries(), 0);
+        // RETRIES 0: rejected, and the second part is good; 1 or more: both are rejected, without a dear place
+        int seed = Check.seedFor(0, 99, 50, 79, 80, 99, 0, 49, 80, 99);
+        PlacerHead z = Check.machine("machine 1 50; times 0 0 0 200; vision 50 30 5; camera 0 0; seed " + seed
+            + "; nozzles 1; kind 0; feeder 0 0 2 0; spot 0 0 0");
+        CHECK.same("timeAtEnd() with RETRIES 5", z.timeAtEnd(), 0);
+        CHECK.same("filledAtEnd() with RETRIES 5", z.filledAtEnd(), 0);
+        CHECK.same("bestRetries(), more spots later", z.bestRetries(), 0);
+        z.set(7, 0);
+        CHECK.same("timeAtEnd() with RETRIES 0", z.timeAtEnd(), 200);
+        CHECK.same("filledAtEnd() with RETRIES 0", z.filledAtEnd(), 1);
+        PlacerHead none = rejects(600);
+        CHECK.same("bestRetries() without an end in 1000 actions", none.bestRetries(), 0);
+        none.set(6, 100);
+        CHECK.same("bestRetries() without an end, the earliest time behind 1000 actions", none.bestRetries(), 0);
     }
 
     private static void promise58() {
@@ -305,6 +386,10 @@ public final class PredictionTests {
         x.run(500);
         CHECK.same("changesAhead() at the end", x.changesAhead(), 0);
         CHECK.same("done(1)", x.done(1), 3);
+        x.newBoard();
+        CHECK.same("changesAhead() on a new board", x.changesAhead(), 2);
+        x.leaveOut(1, true);
+        CHECK.same("changesAhead(), the other kind left out", x.changesAhead(), 0);
         PlacerHead y = Check.machine("machine 1 1; times 0 0 0 1; vision 0 0 0; nozzles 1 1; kind 0; kind 1; feeder 0 1 500 0; feeder 1 1 9 0;"
             + "spot 0 1 0; spot 1 2 2");
         CHECK.same("changesAhead() in 1000 actions", y.changesAhead(), 1);
@@ -366,5 +451,198 @@ public final class PredictionTests {
             x.isBalanced();
             CHECK.same("the state behind predictions", sum(x), sum);
         }
+    }
+
+    private static PlacerHead busy() {
+        PlacerHead x = Check.machine("machine 2 10; times 3 4 5 6; vision 60 30 1; wear 2 30 7; seed 8; nozzles 1 1; kind 0; kind 1;"
+            + "feeder 0 10 40 20; feeder 1 620 40 10; feeder 0 330 40 5;" + repeated("spot 0 1 150", 4) + ";" + repeated("spot 1 70 10", 4)
+            + "; spot 0 999 999");
+        x.splice(0, 9);
+        return x;
+    }
+
+    private static int ahead(PlacerHead x, int which) {
+        switch (which) {
+            case 0:
+                return x.actionsToEnd();
+            case 1:
+                return x.timeAtEnd();
+            case 2:
+                return x.filledAtEnd();
+            case 3:
+                return x.runsOut(0);
+            case 4:
+                return x.splicesAhead();
+            case 5:
+                return x.changesAhead();
+            case 6:
+                return x.cleansAhead();
+            case 7:
+                return x.bestRetries();
+            case 8:
+                return x.dearestSpot();
+            default:
+                return x.bestSwap();
+        }
+    }
+
+    /** Each prediction alone, asked twice, tells of the state as it is then, and is that of a machine that was not asked before. */
+    private static void followTheState() {
+        for (int which = 0; which <= 9; which++) {
+            PlacerHead x = busy();
+            PlacerHead y = busy();
+            int first = ahead(x, which);
+            CHECK.same("prediction " + which + " asked again", ahead(x, which), first);
+            boolean changed = false;
+            for (int i = 0; i < 8; i++) {
+                change(x, i);
+                change(y, i);
+                int then = ahead(x, which);
+                changed |= then != first;
+                PlacerHead z = busy();
+                for (int k = 0; k <= i; k++) {
+                    change(z, k);
+                }
+                CHECK.same("prediction " + which + " behind change " + i, then, ahead(z, which));
+            }
+            CHECK.yes("prediction " + which + " has changed", changed);
+            CHECK.same("prediction " + which + " of one that was not asked before", ahead(y, which), ahead(x, which));
+        }
+    }
+
+    /** What each prediction tells, asked alone, is what comes when the machine goes on by the plan. */
+    private static void comeTrue() {
+        for (int which = 0; which <= 6; which++) {
+            PlacerHead x = busy();
+            PlacerHead y = busy();
+            for (int i = 0; i < 8; i++) {
+                change(x, i);
+                change(y, i);
+                int told = ahead(x, which);
+                y.saveSnapshot(0);
+                CHECK.same("prediction " + which + " behind change " + i + " comes true", told, whatComes(y, which));
+                y.restoreSnapshot(0);
+            }
+        }
+    }
+
+    private static int whatComes(PlacerHead y, int which) {
+        int changes = y.done(1);
+        int cleans = y.done(6);
+        int reels = y.feederValue(0, 4);
+        int runsOut = y.feederValue(0, 2) + reels == 0 ? 0 : PlacerHead.NONE;
+        int actions = 0;
+        while (y.run(1) == 1) {
+            actions++;
+            if (runsOut == PlacerHead.NONE && y.feederValue(0, 2) + y.feederValue(0, 4) == 0) {
+                runsOut = actions;
+            }
+        }
+        // a reel waits at feeder 0 alone, and none of them is without parts
+        int[] came = {actions, y.now(), Long.bitCount(y.filledSet()), runsOut, reels - y.feederValue(0, 4), y.done(1) - changes, y.done(6) - cleans};
+        return came[which];
+    }
+
+    private static void change(PlacerHead x, int i) {
+        switch (i) {
+            case 0:
+                x.leaveOut(8, true);
+                break;
+            case 1:
+                x.run(9);
+                break;
+            case 2:
+                x.setMiss(0, 99);
+                x.setMiss(2, 100);
+                break;
+            case 3:
+                x.moveFeeder(1, 0);
+                break;
+            case 4:
+                x.set(5, 10);
+                x.set(6, 90);
+                break;
+            case 5:
+                x.set(12, 0);
+                break;
+            case 6:
+                x.newBoard();
+                x.setMiss(0, 0);
+                break;
+            default:
+                x.leaveOut(0, true);
+                x.leaveOut(1, true);
+                break;
+        }
+    }
+
+    /** The best ones are those that are found by trying each one on the machine itself. */
+    private static void bestByTrying() {
+        for (int i = 0; i < 12; i++) {
+            PlacerHead x = busy();
+            x.set(5, 4 + 6 * i);
+            x.set(0, 1 + 4 * i);
+            x.moveFeeder(2, 83 * i);
+            x.run(5 * i + 1);
+            if (i % 2 == 0) {
+                x.newBoard();
+            }
+            CHECK.same("bestRetries() by trying", x.bestRetries(), triedRetries(x));
+            CHECK.same("dearestSpot() by trying", x.dearestSpot(), triedSpot(x));
+            CHECK.same("bestSwap() by trying", x.bestSwap(), triedSwap(x));
+        }
+    }
+
+    private static int triedRetries(PlacerHead x) {
+        int best = 0;
+        long least = Long.MAX_VALUE;
+        int now = x.setting(7);
+        for (int retries = 0; retries <= 5; retries++) {
+            x.set(7, retries);
+            if (x.timeAtEnd() == PlacerHead.NONE) {
+                throw new IllegalStateException("the test's own machine does not end");
+            }
+            long rank = -1000000L * x.filledAtEnd() + x.timeAtEnd();
+            best = rank < least ? retries : best;
+            least = Math.min(rank, least);
+        }
+        x.set(7, now);
+        return best;
+    }
+
+    private static int triedSpot(PlacerHead x) {
+        int best = PlacerHead.NONE;
+        int least = Integer.MAX_VALUE;
+        for (int spot = 0; spot < x.count(4); spot++) {
+            if (x.leaveOut(spot, true)) {
+                int end = x.timeAtEnd();
+                if (end != PlacerHead.NONE && end < least) {
+                    best = spot;
+                    least = end;
+                }
+                x.leaveOut(spot, false);
+            }
+        }
+        return best;
+    }
+
+    private static int triedSwap(PlacerHead x) {
+        int best = PlacerHead.NONE;
+        int least = x.timeAtEnd();
+        for (int one = 0; one < 3; one++) {
+            for (int other = one + 1; other < 3; other++) {
+                int oneX = x.feederValue(one, 1);
+                int otherX = x.moveFeeder(other, oneX);
+                x.moveFeeder(one, otherX);
+                int end = x.timeAtEnd();
+                if (end != PlacerHead.NONE && end < least) {
+                    best = 100 * one + other;
+                    least = end;
+                }
+                x.moveFeeder(one, oneX);
+                x.moveFeeder(other, otherX);
+            }
+        }
+        return best;
     }
 }

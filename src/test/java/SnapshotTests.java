@@ -50,49 +50,6 @@ public final class SnapshotTests {
         CHECK.same("loadError(): the result is no part of it", x.loadError(), 1);
     }
 
-    /** Everything that can be asked without changing anything. */
-    private static String state(PlacerHead x) {
-        StringBuilder all = new StringBuilder();
-        for (int what = 0; what <= 14; what++) {
-            all.append(x.setting(what)).append(' ');
-        }
-        for (int what = 0; what <= 5; what++) {
-            all.append(x.count(what)).append(' ');
-        }
-        for (int what = 0; what <= 7; what++) {
-            for (int i = 0; i < x.count(0); i++) {
-                all.append(x.spindleValue(i, what)).append(' ');
-            }
-            for (int i = 0; i < x.count(3); i++) {
-                all.append(x.feederValue(i, what)).append(' ');
-            }
-        }
-        for (int i = 0; i < x.count(1); i++) {
-            all.append(x.freeNozzles(i)).append(' ');
-        }
-        for (int i = 0; i < x.count(2); i++) {
-            all.append(x.nozzleFor(i)).append(' ').append(x.openSpots(i)).append(' ').append(x.nearestFeeder(i)).append(' ');
-            for (int what = 0; what <= 6; what++) {
-                all.append(x.ledger(i, what)).append(' ');
-            }
-        }
-        for (int i = 0; i < x.count(4); i++) {
-            for (int what = 0; what <= 5; what++) {
-                all.append(x.spotValue(i, what)).append(' ');
-            }
-            all.append(x.blockedBy(i)).append(' ').append(x.chain(i)).append(' ');
-        }
-        for (int action = 1; action <= 6; action++) {
-            all.append(x.done(action)).append(' ').append(x.timeOf(action)).append(' ');
-        }
-        for (int i = 0; i < 40; i++) {
-            all.append(x.logEntry(i, 0)).append(' ').append(x.logEntry(i, 1)).append(' ').append(x.logEntry(i, 2)).append(' ');
-        }
-        all.append(x.logSize()).append(' ').append(x.now()).append(' ').append(x.head(0)).append(' ').append(x.head(1)).append(' ');
-        all.append(x.boards()).append(' ').append(x.isHalted()).append(' ').append(x.lookRate()).append(' ').append(x.nextAction());
-        return all.append(' ').append(x.actionsToEnd()).append(' ').append(x.splicesAhead()).toString();
-    }
-
     /** Restores a state that has gone through much, and goes on from it in the same way. */
     private static void promise63Whole() {
         PlacerHead x = Check.machine(TEXT);
@@ -101,15 +58,15 @@ public final class SnapshotTests {
         x.takeReel(1);
         for (int i = 0; i < 12; i++) {
             x.run(6);
-            String then = state(x);
+            String then = Check.state(x);
             x.saveSnapshot(i % 2);
             change(x, i);
-            String later = state(x);
+            String later = Check.state(x);
             CHECK.no("the state has changed", then.equals(later));
             x.restoreSnapshot(i % 2);
-            CHECK.yes("the state is as it was saved", then.equals(state(x)));
+            CHECK.yes("the state is as it was saved", then.equals(Check.state(x)));
             change(x, i);
-            CHECK.yes("it goes on as before", later.equals(state(x)));
+            CHECK.yes("it goes on as before", later.equals(Check.state(x)));
         }
     }
 
@@ -133,21 +90,21 @@ public final class SnapshotTests {
     private static void promise63Layouts() {
         PlacerHead x = Check.machine(TEXT);
         x.run(7);
-        String then = state(x);
+        String then = Check.state(x);
         x.saveSnapshot(0);
         Check.type(x, "machine 4 1; nozzles 1 1 1; kind 2; kind 1; kind 0; feeder 2 5 5 5; feeder 0 7 7 7; feeder 1 8 8 8;"
             + "spot 2 9 9; spot 1 9 9; spot 2 9 9; spot 0 9 9; spot 0 9 9; before 4 0; before 3 1; before 0 2");
         CHECK.same("load()", x.load(), 5);
         x.run(20);
-        String other = state(x);
+        String other = Check.state(x);
         x.saveSnapshot(1);
         x.restoreSnapshot(0);
-        CHECK.yes("the first description", then.equals(state(x)));
+        CHECK.yes("the first description", then.equals(Check.state(x)));
         CHECK.index("spotValue(4, 0)", () -> x.spotValue(4, 0));
         CHECK.index("spindleValue(2, 0)", () -> x.spindleValue(2, 0));
         x.restoreSnapshot(1);
-        CHECK.yes("the second description", other.equals(state(x)));
+        CHECK.yes("the second description", other.equals(Check.state(x)));
         x.restoreSnapshot(0);
-        CHECK.yes("the first description again", then.equals(state(x)));
+        CHECK.yes("the first description again", then.equals(Check.state(x)));
     }
 }

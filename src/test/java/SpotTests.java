@@ -43,6 +43,14 @@ public final class SpotTests {
         spot(x, "left out", 1, 0, 0, 999, 2, -1, -1);
         x.newBoard();
         spot(x, "a new board", 0, 1, 300, 40, 0, -1, -1);
+        x.leaveOut(1, false);
+        fill(x, 0, 0, 1);
+        spot(x, "filled", 1, 0, 0, 999, 1, x.now(), 0);
+        x.saveSnapshot(0);
+        x.newBoard();
+        spot(x, "open again", 1, 0, 0, 999, 0, -1, -1);
+        x.restoreSnapshot(0);
+        spot(x, "restored", 1, 0, 0, 999, 1, x.now(), 0);
         CHECK.index("spotValue(3, 0)", () -> x.spotValue(3, 0));
         CHECK.index("spotValue(-1, 7)", () -> x.spotValue(-1, 7));
         CHECK.argument("spotValue(0, 6)", () -> x.spotValue(0, 6));
@@ -61,6 +69,13 @@ public final class SpotTests {
         CHECK.no("leaveOut(0, true), filled", x.leaveOut(0, true));
         CHECK.no("leaveOut(0, false), filled", x.leaveOut(0, false));
         CHECK.same("spotValue(0, 3)", x.spotValue(0, 3), 1);
+        fill(x, 0, 0, 1);
+        CHECK.no("leaveOut(1, true), filled", x.leaveOut(1, true));
+        CHECK.no("leaveOut(1, false), filled", x.leaveOut(1, false));
+        x.newBoard();
+        CHECK.yes("leaveOut(1, true) on a new board", x.leaveOut(1, true));
+        CHECK.same("newBoard(): none is filled", x.newBoard(), 0);
+        CHECK.same("spotValue(1, 3): it stays left out", x.spotValue(1, 3), 2);
         CHECK.index("leaveOut(2, true)", () -> x.leaveOut(2, true));
         CHECK.index("leaveOut(-1, false)", () -> x.leaveOut(-1, false));
     }
