@@ -1,5 +1,13 @@
+import java.util.ArrayList;
+import java.util.List;
+import java.util.function.BiFunction;
+import java.util.function.Function;
+import java.util.function.Supplier;
+
 /** What the tests share: it counts the answers that are not as due, and makes machines from descriptions. */
 final class Check {
+    private static final int ASKED_OF_ONE = 150;
+
     private final String name;
     private int asked;
     private int wrong;
@@ -113,49 +121,61 @@ final class Check {
     }
 
     /**
-     * Everything that can be asked without changing anything. These are more calls than an object is promised to be used
-     * for; the program counts none, so that they may be asked all the same.
+     * Everything that can be asked without changing anything, of a machine as it is behind some calls. That may be more
+     * than the 512 calls of one object: the machine is made anew for each ASKED_OF_ONE questions.
      */
-    static String state(PlacerHead x) {
+    static String state(Supplier<PlacerHead> behind) {
+        List<Function<PlacerHead, Object>> questions = questions(behind.get());
         StringBuilder all = new StringBuilder();
-        for (int what = 0; what <= 14; what++) {
-            all.append(x.setting(what)).append(' ');
-        }
-        for (int what = 0; what <= 5; what++) {
-            all.append(x.count(what)).append(' ');
-        }
-        for (int what = 0; what <= 7; what++) {
-            for (int i = 0; i < x.count(0); i++) {
-                all.append(x.spindleValue(i, what)).append(' ');
+        PlacerHead x = null;
+        for (int i = 0; i < questions.size(); i++) {
+            if (i % ASKED_OF_ONE == 0) {
+                x = behind.get();
             }
-            for (int i = 0; i < x.count(3); i++) {
-                all.append(x.feederValue(i, what)).append(' ');
-            }
+            all.append(questions.get(i).apply(x)).append(' ');
         }
-        for (int i = 0; i < x.count(1); i++) {
-            all.append(x.freeNozzles(i)).append(' ');
+        return all.toString();
+    }
+
+    private static List<Function<PlacerHead, Object>> questions(PlacerHead ofOne) {
+        List<Function<PlacerHead, Object>> questions = new ArrayList<>();
+        each(questions, 15, PlacerHead::setting);
+        each(questions, 6, PlacerHead::count);
+        each(questions, ofOne.count(0), 8, PlacerHead::spindleValue);
+        each(questions, ofOne.count(1), PlacerHead::freeNozzles);
+        each(questions, ofOne.count(2), PlacerHead::nozzleFor);
+        each(questions, ofOne.count(2), PlacerHead::openSpots);
+        each(questions, ofOne.count(2), PlacerHead::nearestFeeder);
+        each(questions, ofOne.count(2), 7, PlacerHead::ledger);
+        each(questions, ofOne.count(3), 8, PlacerHead::feederValue);
+        each(questions, ofOne.count(4), 6, PlacerHead::spotValue);
+        each(questions, ofOne.count(4), PlacerHead::blockedBy);
+        each(questions, ofOne.count(4), PlacerHead::chain);
+        each(questions, 6, (x, action) -> x.done(action + 1));
+        each(questions, 6, (x, action) -> x.timeOf(action + 1));
+        each(questions, 40, 3, PlacerHead::logEntry);
+        each(questions, 2, PlacerHead::head);
+        questions.addAll(List.of(PlacerHead::logSize, PlacerHead::now, PlacerHead::boards, PlacerHead::isHalted, PlacerHead::lookRate));
+        questions.addAll(List.of(PlacerHead::nextAction, PlacerHead::filledSet, PlacerHead::fillableSet, PlacerHead::isBalanced));
+        questions.addAll(List.of(PlacerHead::actionsToEnd, PlacerHead::splicesAhead));
+        return questions;
+    }
+
+    private static void each(List<Function<PlacerHead, Object>> questions, int size, BiFunction<PlacerHead, Integer, Object> question) {
+        for (int i = 0; i < size; i++) {
+            int index = i;
+            questions.add(x -> question.apply(x, index));
         }
-        for (int i = 0; i < x.count(2); i++) {
-            all.append(x.nozzleFor(i)).append(' ').append(x.openSpots(i)).append(' ').append(x.nearestFeeder(i)).append(' ');
-            for (int what = 0; what <= 6; what++) {
-                all.append(x.ledger(i, what)).append(' ');
-            }
+    }
+
+    private static void each(List<Function<PlacerHead, Object>> questions, int size, int whats, Question question) {
+        for (int i = 0; i < size; i++) {
+            int index = i;
+            each(questions, whats, (x, what) -> question.answer(x, index, what));
         }
-        for (int i = 0; i < x.count(4); i++) {
-            for (int what = 0; what <= 5; what++) {
-                all.append(x.spotValue(i, what)).append(' ');
-            }
-            all.append(x.blockedBy(i)).append(' ').append(x.chain(i)).append(' ');
-        }
-        for (int action = 1; action <= 6; action++) {
-            all.append(x.done(action)).append(' ').append(x.timeOf(action)).append(' ');
-        }
-        for (int i = 0; i < 40; i++) {
-            all.append(x.logEntry(i, 0)).append(' ').append(x.logEntry(i, 1)).append(' ').append(x.logEntry(i, 2)).append(' ');
-        }
-        all.append(x.logSize()).append(' ').append(x.now()).append(' ').append(x.head(0)).append(' ').append(x.head(1)).append(' ');
-        all.append(x.boards()).append(' ').append(x.isHalted()).append(' ').append(x.lookRate()).append(' ').append(x.nextAction());
-        all.append(' ').append(x.filledSet()).append(' ').append(x.fillableSet()).append(' ').append(x.isBalanced());
-        return all.append(' ').append(x.actionsToEnd()).append(' ').append(x.splicesAhead()).toString();
+    }
+
+    private interface Question {
+        int answer(PlacerHead x, int index, int what);
     }
 }

@@ -377,7 +377,7 @@ public final class DescriptionTests {
         for (int what = 0; what < settings.length; what++) {
             CHECK.same("without it: setting(" + what + ")", x.setting(what), settings[what]);
         }
-        CHECK.text("a new object", Check.state(new PlacerHead()), Check.state(Check.machine("machine 1 10")));
+        CHECK.text("a new object", Check.state(PlacerHead::new), Check.state(() -> Check.machine("machine 1 10")));
     }
 
     private static final String BUSY = "machine 4 9; times 1 2 3 4; vision 60 20 2; camera 80 90; alarm 3; wear 3 20 5; seed 8; nozzles 2 2 1 1 1 4;"
@@ -434,22 +434,11 @@ public final class DescriptionTests {
         String[] texts = {"machine 1 10", BUSY, "machine 4 1", "machine 2 3; nozzles 1; kind 0; feeder 0 5 5 5; spot 0 5 5",
             "machine 3 4; nozzles 1 1; kind 1; kind 0; feeder 1 5 5 5; feeder 0 6 6 6; spot 1 5 5; spot 1 6 6; spot 0 7 7; spot 0 8 8"};
         for (String text : texts) {
-            String due = Check.state(Check.machine(text));
+            String due = Check.state(() -> Check.machine(text));
             for (int way = 0; way < 4; way++) {
-                PlacerHead x = busy();
-                if (way == 1) {
-                    x.actionsToEnd();
-                } else if (way == 2) {
-                    x.look(0);
-                    x.filledAtEnd();
-                } else if (way == 3) {
-                    Check.type(x, BUSY + ";");
-                    x.load();
-                }
-                Check.type(x, text);
-                x.load();
-                CHECK.text("the state behind load(), " + way + ", of \"" + text + "\"", Check.state(x), due);
-                CHECK.same("append(0) behind load()", x.append(0), 0);
+                int by = way;
+                CHECK.text("the state behind load(), " + way + ", of \"" + text + "\"", Check.state(() -> readAgain(text, by)), due);
+                CHECK.same("append(0) behind load()", readAgain(text, by).append(0), 0);
             }
         }
         PlacerHead halted = busy();
@@ -461,13 +450,25 @@ public final class DescriptionTests {
         CHECK.no("isHalted() behind load()", halted.isHalted());
     }
 
+    private static PlacerHead readAgain(String text, int way) {
+        PlacerHead x = busy();
+        if (way == 1) {
+            x.actionsToEnd();
+        } else if (way == 2) {
+            x.look(0);
+            x.filledAtEnd();
+        } else if (way == 3) {
+            Check.type(x, BUSY + ";");
+            x.load();
+        }
+        Check.type(x, text);
+        x.load();
+        return x;
+    }
+
     /** load() begins anew: looks of before count no more for ALARM, and snapshots stay. */
     private static void promise3Counts() {
-        PlacerHead x = busy();
-        x.saveSnapshot(0);
-        x.actionsToEnd();
-        Check.type(x, "machine 1 10; vision 0 0 0; alarm 3; nozzles 1; kind 0; feeder 0 0 9 0; spot 0 0 0");
-        x.load();
+        PlacerHead x = savedAndRead();
         CHECK.same("actionsToEnd(): a change, then a pick and a look three times", x.actionsToEnd(), 7);
         CHECK.same("run(5)", x.run(5), 5);
         CHECK.no("isHalted() behind two looks", x.isHalted());
@@ -475,9 +476,24 @@ public final class DescriptionTests {
         CHECK.yes("isHalted() behind three", x.isHalted());
         CHECK.same("lookRate(): good looks of before count no more", x.lookRate(), 0);
         CHECK.same("restoreSnapshot(1), nothing saved", x.restoreSnapshot(1), PlacerHead.NONE);
-        PlacerHead y = busy();
-        CHECK.same("restoreSnapshot(0)", x.restoreSnapshot(0), y.now());
-        CHECK.text("the state behind restoreSnapshot(0)", Check.state(x), Check.state(y));
+        CHECK.same("restoreSnapshot(0)", x.restoreSnapshot(0), busy().now());
+        CHECK.text("the state behind restoreSnapshot(0)", Check.state(DescriptionTests::savedReadAndRestored), Check.state(DescriptionTests::busy));
+    }
+
+    private static PlacerHead savedAndRead() {
+        PlacerHead x = busy();
+        x.saveSnapshot(0);
+        x.actionsToEnd();
+        Check.type(x, "machine 1 10; vision 0 0 0; alarm 3; nozzles 1; kind 0; feeder 0 0 9 0; spot 0 0 0");
+        x.load();
+        return x;
+    }
+
+    private static PlacerHead savedReadAndRestored() {
+        PlacerHead x = savedAndRead();
+        x.run(500);
+        x.restoreSnapshot(0);
+        return x;
     }
 
     private static void promise3BeginsAnew() {

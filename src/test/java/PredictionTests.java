@@ -430,11 +430,11 @@ public final class PredictionTests {
     }
 
     private static void changeNothing() {
-        PlacerHead x = Check.machine("machine 2 10; vision 60 20 2; alarm 9; wear 3 20 20; seed 8; nozzles 1 1; kind 0; kind 1; feeder 0 10 90 20;"
-            + "feeder 1 20 90 20;" + repeated("spot 0 1 1", 5) + ";" + repeated("spot 1 1 1", 5));
-        x.splice(0, 9);
-        for (int i = 0; i < 9; i++) {
-            x.run(4);
+        for (int i = 1; i <= 9; i++) {
+            PlacerHead x = Check.machine("machine 2 10; vision 60 20 2; alarm 9; wear 3 20 20; seed 8; nozzles 1 1; kind 0; kind 1;"
+                + "feeder 0 10 90 20; feeder 1 20 90 20;" + repeated("spot 0 1 1", 5) + ";" + repeated("spot 1 1 1", 5));
+            x.splice(0, 9);
+            x.run(4 * i);
             long sum = sum(x);
             x.nextAction();
             x.actionsToEnd();
@@ -499,11 +499,7 @@ public final class PredictionTests {
                 change(y, i);
                 int then = ahead(x, which);
                 changed |= then != first;
-                PlacerHead z = busy();
-                for (int k = 0; k <= i; k++) {
-                    change(z, k);
-                }
-                CHECK.same("prediction " + which + " behind change " + i, then, ahead(z, which));
+                CHECK.same("prediction " + which + " behind change " + i, then, ahead(changedUpTo(i), which));
             }
             CHECK.yes("prediction " + which + " has changed", changed);
             CHECK.same("prediction " + which + " of one that was not asked before", ahead(y, which), ahead(x, which));
@@ -514,33 +510,59 @@ public final class PredictionTests {
     private static void comeTrue() {
         for (int which = 0; which <= 6; which++) {
             PlacerHead x = busy();
-            PlacerHead y = busy();
             for (int i = 0; i < 8; i++) {
                 change(x, i);
-                change(y, i);
                 int told = ahead(x, which);
-                y.saveSnapshot(0);
-                CHECK.same("prediction " + which + " behind change " + i + " comes true", told, whatComes(y, which));
-                y.restoreSnapshot(0);
+                CHECK.same("prediction " + which + " behind change " + i + " comes true", told, which == 3 ? runOut(i) : whatComes(i, which));
             }
         }
     }
 
-    private static int whatComes(PlacerHead y, int which) {
+    private static PlacerHead changedUpTo(int last) {
+        PlacerHead x = busy();
+        for (int i = 0; i <= last; i++) {
+            change(x, i);
+        }
+        return x;
+    }
+
+    /** Goes on by the plan, for at most so many actions; returns how many there were. */
+    private static int goOn(PlacerHead x, int most) {
+        int actions = 0;
+        while (actions < most && x.nextAction() != PlacerHead.NONE) {
+            actions += x.run(Math.min(500, most - actions));
+        }
+        return actions;
+    }
+
+    private static int whatComes(int last, int which) {
+        PlacerHead y = changedUpTo(last);
         int changes = y.done(1);
         int cleans = y.done(6);
         int reels = y.feederValue(0, 4);
-        int runsOut = y.feederValue(0, 2) + reels == 0 ? 0 : PlacerHead.NONE;
-        int actions = 0;
-        while (y.run(1) == 1) {
-            actions++;
-            if (runsOut == PlacerHead.NONE && y.feederValue(0, 2) + y.feederValue(0, 4) == 0) {
-                runsOut = actions;
+        int actions = goOn(y, 1001);
+        CHECK.yes("the test's own machine ends", actions <= 1000);
+        // a reel waits at feeder 0 alone, and none of them is without parts
+        int[] came = {actions, y.now(), Long.bitCount(y.filledSet()), 0, reels - y.feederValue(0, 4), y.done(1) - changes, y.done(6) - cleans};
+        return came[which];
+    }
+
+    private static int runOut(int last) {
+        PlacerHead y = changedUpTo(last);
+        int end = goOn(y, 1000);
+        for (int actions = 0; actions <= end; actions++) {
+            if (actions % 100 == 0) {
+                // an object is used for 512 calls
+                y = changedUpTo(last);
+                goOn(y, actions);
+            } else {
+                y.run(1);
+            }
+            if (y.feederValue(0, 2) == 0 && y.feederValue(0, 4) == 0) {
+                return actions;
             }
         }
-        // a reel waits at feeder 0 alone, and none of them is without parts
-        int[] came = {actions, y.now(), Long.bitCount(y.filledSet()), runsOut, reels - y.feederValue(0, 4), y.done(1) - changes, y.done(6) - cleans};
-        return came[which];
+        return PlacerHead.NONE;
     }
 
     private static void change(PlacerHead x, int i) {

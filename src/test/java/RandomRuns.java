@@ -7,6 +7,7 @@ import java.util.List;
 
 /** Long runs of calls, the same ones each time, whose answers must be those of Model. */
 public final class RandomRuns {
+    /** So many calls of one object are promised. */
     private static final int CALLS = 512;
     private static final List<String> DEAR = List.of("bestSwap", "dearestSpot", "bestRetries");
     private static final List<String> AHEAD = List.of("actionsToEnd", "timeAtEnd", "filledAtEnd", "runsOut", "splicesAhead", "changesAhead",
@@ -18,6 +19,7 @@ public final class RandomRuns {
     private final PlacerHead program = new PlacerHead();
     private final Model model = new Model();
     private final List<String> calls = new ArrayList<>();
+    private int used;
     private int wrong;
 
     private RandomRuns(long seed) {
@@ -25,13 +27,14 @@ public final class RandomRuns {
     }
 
     public static void main(String[] args) throws Exception {
-        int runs = args.length > 0 ? Integer.parseInt(args[0]) : 150;
+        int runs = args.length > 0 ? Integer.parseInt(args[0]) : 300;
         long from = args.length > 1 ? Long.parseLong(args[1]) : 1;
         List<Method> face = face();
+        List<Method> oneOfEach = face.stream().distinct().toList();
         for (long seed = from; seed < from + runs; seed++) {
             RandomRuns run = new RandomRuns(seed);
             run.descriptions();
-            run.go(face);
+            run.go(face, oneOfEach);
             if (run.wrong > 0) {
                 System.out.println("RandomRuns: seed " + seed + ", the calls up to the first wrong one:");
                 run.calls.forEach(System.out::println);
@@ -85,8 +88,14 @@ public final class RandomRuns {
         }
     }
 
-    private void load(boolean full) {
+    /** Loads a description, unless there would be more calls then than there may be. */
+    private void load(boolean full, int most) {
         String text = new Texts(numbers).description(full);
+        int needed = (text.length() + 7) / 8 + 1;
+        if (used + needed > most) {
+            return;
+        }
+        used += needed;
         type(program, model, text);
         int got = program.load();
         int want = model.load();
@@ -94,21 +103,23 @@ public final class RandomRuns {
         wrong += got != want ? 1 : 0;
     }
 
-    private void go(List<Method> face) throws Exception {
-        load(numbers.below(4) == 0);
-        for (int i = 0; i < CALLS && wrong == 0; i++) {
+    private void go(List<Method> face, List<Method> oneOfEach) throws Exception {
+        int most = CALLS - oneOfEach.size();
+        load(numbers.below(4) == 0, most);
+        while (used < most && wrong == 0) {
             if (numbers.below(150) == 0) {
-                load(false);
+                load(false, most);
             } else {
                 call(face.get(numbers.below(face.size())));
             }
         }
-        for (int i = 0; i < face.size() && wrong == 0; i++) {
-            call(face.get(i));
+        for (int i = 0; i < oneOfEach.size() && wrong == 0; i++) {
+            call(oneOfEach.get(i));
         }
     }
 
     private void call(Method method) throws Exception {
+        used++;
         Object[] arguments = new Object[method.getParameterCount()];
         StringBuilder text = new StringBuilder(method.getName()).append('(');
         for (int i = 0; i < arguments.length; i++) {

@@ -1,5 +1,7 @@
+import java.util.function.Consumer;
 import java.util.function.IntConsumer;
-import java.util.function.IntSupplier;
+import java.util.function.Supplier;
+import java.util.function.ToIntFunction;
 
 /**
  * Section 5 of the description: a call that throws or answers an error changes nothing; exceptions in the order in which they
@@ -11,9 +13,9 @@ public final class RefusalTests {
     private static final int MAX = Integer.MAX_VALUE;
 
     public static void main(String[] args) {
-        new RefusalTests(new PlacerHead(), "a new object").everyException();
-        new RefusalTests(worked(), "a small machine").everyException();
-        new RefusalTests(full(), "a full machine").everyException();
+        new RefusalTests(PlacerHead::new, "a new object").everyException();
+        new RefusalTests(RefusalTests::worked, "a small machine").everyException();
+        new RefusalTests(RefusalTests::full, "a full machine").everyException();
         exceptionsInOrder();
         exceptionsAheadOfErrors();
         errorsOfReelsAndPairs();
@@ -26,11 +28,12 @@ public final class RefusalTests {
         CHECK.end();
     }
 
-    private final PlacerHead x;
+    private final Supplier<PlacerHead> machine;
     private final String on;
+    private PlacerHead x;
 
-    private RefusalTests(PlacerHead machine, String when) {
-        x = machine;
+    private RefusalTests(Supplier<PlacerHead> machine, String when) {
+        this.machine = machine;
         on = when + ": ";
     }
 
@@ -78,15 +81,27 @@ public final class RefusalTests {
     }
 
     private void everyException() {
-        String then = Check.state(x);
-        long waiting = x.append(0);
+        String then = Check.state(machine);
+        long waiting = machine.get().append(0);
+        CHECK.text(on + "the state behind exceptions for indices", Check.state(this::behindIndices), then);
+        CHECK.text(on + "the state behind exceptions for ranges", Check.state(this::behindRanges), then);
+        CHECK.same(on + "append(0) behind exceptions for indices", behindIndices().append(0), waiting);
+        CHECK.same(on + "append(0) behind exceptions for ranges", behindRanges().append(0), waiting);
+    }
+
+    private PlacerHead behindIndices() {
+        x = machine.get();
         indices();
+        return x;
+    }
+
+    private PlacerHead behindRanges() {
+        x = machine.get();
         ranges();
-        if (x.count(0) > 0 && x.count(3) > 0 && x.count(4) > 0) {
+        if (x.count(4) > 0) {
             rangesOfThings();
         }
-        CHECK.text(on + "the state behind exceptions", Check.state(x), then);
-        CHECK.same(on + "append(0) behind exceptions", x.append(0), waiting);
+        return x;
     }
 
     private void indices() {
@@ -181,115 +196,122 @@ public final class RefusalTests {
     }
 
     private static void exceptionsAheadOfErrors() {
-        PlacerHead x = worked();
-        x.splice(0, 1);
-        x.splice(0, 1);
-        String then = Check.state(x);
-        CHECK.argument("splice: 3 wait, too many parts", () -> x.splice(0, 501));
-        CHECK.index("changeNozzle: a part is held, no such type", () -> x.changeNozzle(1, 2));
-        CHECK.index("pick: a part is held, no such feeder", () -> x.pick(1, 2));
-        CHECK.index("place: no part is held, no such spot", () -> x.place(0, 4));
-        CHECK.index("addBefore: the same spot, which is none", () -> x.addBefore(4, 4));
-        CHECK.argument("logEntry: no such entry, no such what", () -> x.logEntry(40, 3));
-        CHECK.argument("restoreSnapshot: nothing saved, no such slot", () -> x.restoreSnapshot(2));
-        CHECK.argument("shareOf: at time 0, no such action", () -> new PlacerHead().shareOf(7));
-        CHECK.text("the state behind exceptions", Check.state(x), then);
+        Supplier<PlacerHead> threeWait = behind(RefusalTests::worked, x -> x.splice(0, 1), x -> x.splice(0, 1));
+        String behindExceptions = Check.state(() -> {
+            PlacerHead x = threeWait.get();
+            CHECK.argument("splice: 3 wait, too many parts", () -> x.splice(0, 501));
+            CHECK.index("changeNozzle: a part is held, no such type", () -> x.changeNozzle(1, 2));
+            CHECK.index("pick: a part is held, no such feeder", () -> x.pick(1, 2));
+            CHECK.index("place: no part is held, no such spot", () -> x.place(0, 4));
+            CHECK.index("addBefore: the same spot, which is none", () -> x.addBefore(4, 4));
+            CHECK.argument("logEntry: no such entry, no such what", () -> x.logEntry(40, 3));
+            CHECK.argument("restoreSnapshot: nothing saved, no such slot", () -> x.restoreSnapshot(2));
+            return x;
+        });
+        CHECK.text("the state behind exceptions", behindExceptions, Check.state(threeWait));
         PlacerHead done = new PlacerHead();
+        CHECK.argument("shareOf: at time 0, no such action", () -> done.shareOf(7));
         CHECK.argument("run: the plan has ended, too many", () -> done.run(501));
         CHECK.argument("run: the plan has ended, none", () -> done.run(0));
     }
 
-    private static void refused(PlacerHead x, String call, IntSupplier method, int due) {
-        String then = Check.state(x);
-        CHECK.same(call, method.getAsInt(), due);
-        CHECK.text("the state behind " + call, Check.state(x), then);
+    /** A machine that goes through some calls each time it is made anew. */
+    @SafeVarargs
+    private static Supplier<PlacerHead> behind(Supplier<PlacerHead> machine, Consumer<PlacerHead>... calls) {
+        return () -> {
+            PlacerHead x = machine.get();
+            for (Consumer<PlacerHead> call : calls) {
+                call.accept(x);
+            }
+            return x;
+        };
+    }
+
+    private static void refused(Supplier<PlacerHead> machine, String call, ToIntFunction<PlacerHead> method, int due) {
+        CHECK.same(call, method.applyAsInt(machine.get()), due);
+        CHECK.text("the state behind " + call, Check.state(behind(machine, method::applyAsInt)), Check.state(machine));
     }
 
     private static void errorsOfReelsAndPairs() {
-        PlacerHead x = worked();
-        refused(x, "takeReel(1), none waits", () -> x.takeReel(1), PlacerHead.NONE);
-        x.splice(0, 6);
-        x.splice(0, 7);
-        refused(x, "splice(0, 8), 3 wait", () -> x.splice(0, 8), PlacerHead.FULL);
-        refused(x, "addBefore(0, 0)", () -> x.addBefore(0, 0), PlacerHead.CIRCLE);
-        refused(x, "addBefore(2, 1)", () -> x.addBefore(2, 1), PlacerHead.CIRCLE);
-        refused(x, "addBefore(1, 2), a pair already", () -> x.addBefore(1, 2), 1);
-        refused(x, "dropBefore(2, 1), no pair", () -> x.dropBefore(2, 1) ? 1 : 0, 0);
-        refused(x, "leaveOut(0, true), filled", () -> x.leaveOut(0, true) ? 1 : 0, 0);
-        refused(x, "leaveOut(3, true), left out", () -> x.leaveOut(3, true) ? 1 : 0, 0);
-        PlacerHead y = full();
-        refused(y, "addBefore(0, 39), a 21st pair", () -> y.addBefore(0, 39), PlacerHead.FULL);
-        refused(y, "addBefore(0, 20), a pair already, of 20", () -> y.addBefore(0, 20), 20);
-        refused(y, "splice(9, 0), 3 wait", () -> y.splice(9, 0), PlacerHead.FULL);
+        Supplier<PlacerHead> x = RefusalTests::worked;
+        refused(x, "takeReel(1), none waits", at -> at.takeReel(1), PlacerHead.NONE);
+        Supplier<PlacerHead> threeWait = behind(x, at -> at.splice(0, 6), at -> at.splice(0, 7));
+        refused(threeWait, "splice(0, 8), 3 wait", at -> at.splice(0, 8), PlacerHead.FULL);
+        refused(x, "addBefore(0, 0)", at -> at.addBefore(0, 0), PlacerHead.CIRCLE);
+        refused(x, "addBefore(2, 1)", at -> at.addBefore(2, 1), PlacerHead.CIRCLE);
+        refused(x, "addBefore(1, 2), a pair already", at -> at.addBefore(1, 2), 1);
+        refused(x, "dropBefore(2, 1), no pair", at -> at.dropBefore(2, 1) ? 1 : 0, 0);
+        refused(x, "leaveOut(0, true), filled", at -> at.leaveOut(0, true) ? 1 : 0, 0);
+        refused(x, "leaveOut(0, false), filled", at -> at.leaveOut(0, false) ? 1 : 0, 0);
+        refused(x, "leaveOut(1, false), open", at -> at.leaveOut(1, false) ? 1 : 0, 0);
+        refused(x, "leaveOut(3, true), left out", at -> at.leaveOut(3, true) ? 1 : 0, 0);
+        Supplier<PlacerHead> y = RefusalTests::full;
+        refused(y, "addBefore(0, 39), a 21st pair", at -> at.addBefore(0, 39), PlacerHead.FULL);
+        refused(y, "addBefore(0, 20), a pair already, of 20", at -> at.addBefore(0, 20), 20);
+        refused(y, "splice(9, 0), 3 wait", at -> at.splice(9, 0), PlacerHead.FULL);
     }
 
     private static void errorsOfNozzles() {
-        PlacerHead x = worked();
-        refused(x, "changeNozzle(1, 0), a part is held", () -> x.changeNozzle(1, 0), PlacerHead.WRONG_STATE);
-        refused(x, "changeNozzle(0, 0), of this type", () -> x.changeNozzle(0, 0), PlacerHead.MISMATCH);
-        refused(x, "clean(1), a part is held", () -> x.clean(1), PlacerHead.WRONG_STATE);
-        PlacerHead y = Check.machine("machine 2 10; nozzles 1; kind 0; feeder 0 100 9 0");
-        refused(y, "clean(0), no nozzle", () -> y.clean(0), PlacerHead.EMPTY);
-        y.changeNozzle(1, 0);
-        refused(y, "changeNozzle(0, 0), none left", () -> y.changeNozzle(0, 0), PlacerHead.EMPTY);
-        refused(y, "clean(0), no nozzle yet", () -> y.clean(0), PlacerHead.EMPTY);
+        Supplier<PlacerHead> x = RefusalTests::worked;
+        refused(x, "changeNozzle(1, 0), a part is held", at -> at.changeNozzle(1, 0), PlacerHead.WRONG_STATE);
+        refused(x, "changeNozzle(0, 0), of this type", at -> at.changeNozzle(0, 0), PlacerHead.MISMATCH);
+        refused(x, "clean(1), a part is held", at -> at.clean(1), PlacerHead.WRONG_STATE);
+        Supplier<PlacerHead> y = () -> Check.machine("machine 2 10; nozzles 1; kind 0; feeder 0 100 9 0");
+        refused(y, "clean(0), no nozzle", at -> at.clean(0), PlacerHead.EMPTY);
+        Supplier<PlacerHead> noneLeft = behind(y, at -> at.changeNozzle(1, 0));
+        refused(noneLeft, "changeNozzle(0, 0), none left", at -> at.changeNozzle(0, 0), PlacerHead.EMPTY);
+        refused(noneLeft, "clean(0), no nozzle yet", at -> at.clean(0), PlacerHead.EMPTY);
     }
 
     private static void errorsOfPicks() {
-        PlacerHead x = Check.machine("machine 1 10; nozzles 1 1; kind 0; kind 1; feeder 0 100 9 0; feeder 1 100 9 0; feeder 0 9 0 0");
-        refused(x, "pick(0, 0), no nozzle", () -> x.pick(0, 0), PlacerHead.MISMATCH);
-        x.changeNozzle(0, 0);
-        refused(x, "pick(0, 1), another nozzle", () -> x.pick(0, 1), PlacerHead.MISMATCH);
-        refused(x, "pick(0, 2), no parts", () -> x.pick(0, 2), PlacerHead.EMPTY);
-        x.splice(2, 0);
-        refused(x, "pick(0, 2), spliced without parts", () -> x.pick(0, 2), PlacerHead.EMPTY);
-        CHECK.same("the splice stays", x.feederValue(2, 7), 1);
-        x.pick(0, 0);
-        refused(x, "pick(0, 0), a part is held", () -> x.pick(0, 0), PlacerHead.WRONG_STATE);
+        Supplier<PlacerHead> x = () -> Check.machine("machine 1 10; nozzles 1 1; kind 0; kind 1; feeder 0 100 9 0; feeder 1 100 9 0;"
+            + "feeder 0 9 0 0");
+        refused(x, "pick(0, 0), no nozzle", at -> at.pick(0, 0), PlacerHead.MISMATCH);
+        Supplier<PlacerHead> y = behind(x, at -> at.changeNozzle(0, 0));
+        refused(y, "pick(0, 1), another nozzle", at -> at.pick(0, 1), PlacerHead.MISMATCH);
+        refused(y, "pick(0, 2), no parts", at -> at.pick(0, 2), PlacerHead.EMPTY);
+        Supplier<PlacerHead> spliced = behind(y, at -> at.splice(2, 0));
+        refused(spliced, "pick(0, 2), spliced without parts", at -> at.pick(0, 2), PlacerHead.EMPTY);
+        CHECK.same("the splice stays", behind(spliced, at -> at.pick(0, 2)).get().feederValue(2, 7), 1);
+        refused(behind(y, at -> at.pick(0, 0)), "pick(0, 0), a part is held", at -> at.pick(0, 0), PlacerHead.WRONG_STATE);
     }
 
     private static void errorsOfParts() {
-        PlacerHead x = Check.machine("machine 1 10; vision 100 0 0; nozzles 1; kind 0; kind 0; feeder 0 100 9 0; spot 0 10 10;"
-            + "spot 1 20 20; spot 0 30 30; spot 0 40 40; before 0 2");
-        refused(x, "look(0), no part", () -> x.look(0), PlacerHead.WRONG_STATE);
-        refused(x, "place(0, 0), no part", () -> x.place(0, 0), PlacerHead.WRONG_STATE);
-        refused(x, "discard(0), no part", () -> x.discard(0), PlacerHead.WRONG_STATE);
-        x.changeNozzle(0, 0);
-        x.pick(0, 0);
-        refused(x, "place(0, 0), not ready", () -> x.place(0, 0), PlacerHead.WRONG_STATE);
-        x.look(0);
-        refused(x, "look(0), ready", () -> x.look(0), PlacerHead.WRONG_STATE);
-        refused(x, "place(0, 1), another kind", () -> x.place(0, 1), PlacerHead.MISMATCH);
-        refused(x, "place(0, 2), blocked", () -> x.place(0, 2), PlacerHead.BLOCKED);
-        x.leaveOut(3, true);
-        refused(x, "place(0, 3), left out", () -> x.place(0, 3), PlacerHead.WRONG_STATE);
-        x.place(0, 0);
-        x.pick(0, 0);
-        x.look(0);
-        refused(x, "place(0, 0), filled", () -> x.place(0, 0), PlacerHead.WRONG_STATE);
+        Supplier<PlacerHead> x = () -> Check.machine("machine 1 10; vision 100 0 0; nozzles 1; kind 0; kind 0; feeder 0 100 9 0;"
+            + "spot 0 10 10; spot 1 20 20; spot 0 30 30; spot 0 40 40; before 0 2");
+        refused(x, "look(0), no part", at -> at.look(0), PlacerHead.WRONG_STATE);
+        refused(x, "place(0, 0), no part", at -> at.place(0, 0), PlacerHead.WRONG_STATE);
+        refused(x, "discard(0), no part", at -> at.discard(0), PlacerHead.WRONG_STATE);
+        Supplier<PlacerHead> picked = behind(x, at -> at.changeNozzle(0, 0), at -> at.pick(0, 0));
+        refused(picked, "place(0, 0), not ready", at -> at.place(0, 0), PlacerHead.WRONG_STATE);
+        Supplier<PlacerHead> ready = behind(picked, at -> at.look(0));
+        refused(ready, "look(0), ready", at -> at.look(0), PlacerHead.WRONG_STATE);
+        refused(ready, "place(0, 1), another kind", at -> at.place(0, 1), PlacerHead.MISMATCH);
+        refused(ready, "place(0, 2), blocked", at -> at.place(0, 2), PlacerHead.BLOCKED);
+        refused(behind(ready, at -> at.leaveOut(3, true)), "place(0, 3), left out", at -> at.place(0, 3), PlacerHead.WRONG_STATE);
+        Supplier<PlacerHead> again = behind(ready, at -> at.place(0, 0), at -> at.pick(0, 0), at -> at.look(0));
+        refused(again, "place(0, 0), filled", at -> at.place(0, 0), PlacerHead.WRONG_STATE);
     }
 
     private static void errorsOfTheRest() {
-        PlacerHead x = new PlacerHead();
-        refused(x, "step(), the plan has ended", x::step, PlacerHead.NONE);
-        refused(x, "run(500), the plan has ended", () -> x.run(500), 0);
-        refused(x, "nextAction(), the plan has ended", x::nextAction, PlacerHead.NONE);
-        refused(x, "restoreSnapshot(0), nothing saved", () -> x.restoreSnapshot(0), PlacerHead.NONE);
-        refused(x, "logEntry(0, 0), no entries", () -> x.logEntry(0, 0), PlacerHead.NONE);
-        PlacerHead y = worked();
-        refused(y, "restoreSnapshot(1), nothing saved", () -> y.restoreSnapshot(1), PlacerHead.NONE);
-        y.set(5, 0);
-        y.set(11, 1);
-        y.look(1);
-        CHECK.yes("isHalted()", y.isHalted());
-        refused(y, "step(), halted", y::step, PlacerHead.NONE);
-        refused(y, "run(500), halted", () -> y.run(500), 0);
-        PlacerHead z = new PlacerHead();
-        Check.type(z, " ".repeat(898));
-        refused(z, "append of three bytes at 898", () -> z.append(0x202020), PlacerHead.FULL);
-        CHECK.same("append of two bytes at 898", z.append(0x2020), 900);
-        refused(z, "append of a byte at 900", () -> z.append(0x20), PlacerHead.FULL);
-        CHECK.same("append(0) at 900", z.append(0), 900);
+        Supplier<PlacerHead> x = PlacerHead::new;
+        refused(x, "step(), the plan has ended", PlacerHead::step, PlacerHead.NONE);
+        refused(x, "run(500), the plan has ended", at -> at.run(500), 0);
+        refused(x, "nextAction(), the plan has ended", PlacerHead::nextAction, PlacerHead.NONE);
+        refused(x, "restoreSnapshot(0), nothing saved", at -> at.restoreSnapshot(0), PlacerHead.NONE);
+        refused(x, "logEntry(0, 0), no entries", at -> at.logEntry(0, 0), PlacerHead.NONE);
+        Supplier<PlacerHead> y = RefusalTests::worked;
+        refused(y, "restoreSnapshot(1), nothing saved", at -> at.restoreSnapshot(1), PlacerHead.NONE);
+        Supplier<PlacerHead> halted = behind(y, at -> at.set(5, 0), at -> at.set(11, 1), at -> at.look(1));
+        CHECK.yes("isHalted()", halted.get().isHalted());
+        refused(halted, "step(), halted", PlacerHead::step, PlacerHead.NONE);
+        refused(halted, "run(500), halted", at -> at.run(500), 0);
+        Supplier<PlacerHead> z = behind(PlacerHead::new, at -> Check.type(at, " ".repeat(898)));
+        refused(z, "append of three bytes at 898", at -> at.append(0x202020), PlacerHead.FULL);
+        CHECK.same("append of two bytes at 898", behind(z, at -> at.append(0x202020)).get().append(0x2020), 900);
+        Supplier<PlacerHead> full = behind(z, at -> at.append(0x2020));
+        refused(full, "append of a byte at 900", at -> at.append(0x20), PlacerHead.FULL);
+        CHECK.same("append(0) at 900", behind(full, at -> at.append(0x20)).get().append(0), 900);
     }
 
     private static void errorsInOrder() {
@@ -323,11 +345,11 @@ public final class RefusalTests {
             "machine 1 1;nozzles 1 1 1 1 1 1 |1", "machine 4 1;alarm 1;seed 5;nozzles 1;kind 0;feeder 0 1 1 1;spot 0 1 1;|", "|\u00ff"};
         int[] errors = {1, 1, 2, 4, 3, 1, 1};
         for (int i = 0; i < marked.length; i++) {
-            PlacerHead x = worked();
             int position = marked[i].indexOf('|');
             String text = marked[i].substring(0, position) + marked[i].substring(position + 1);
-            Check.type(x, text);
-            refused(x, "load() of \"" + text + "\"", x::load, -100 - position);
+            Supplier<PlacerHead> typed = behind(RefusalTests::worked, at -> Check.type(at, text));
+            refused(typed, "load() of \"" + text + "\"", PlacerHead::load, -100 - position);
+            PlacerHead x = behind(typed, PlacerHead::load).get();
             CHECK.same("loadError() of \"" + text + "\"", x.loadError(), errors[i]);
             CHECK.same("append(0) behind \"" + text + "\"", x.append(0), 0);
         }

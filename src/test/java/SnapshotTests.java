@@ -52,22 +52,42 @@ public final class SnapshotTests {
 
     /** Restores a state that has gone through much, and goes on from it in the same way. */
     private static void promise63Whole() {
+        for (int i = 0; i < 12; i++) {
+            int steps = i;
+            String then = Check.state(() -> behind(steps));
+            String later = Check.state(() -> changed(behind(steps), steps));
+            CHECK.no("the state has changed", then.equals(later));
+            CHECK.text("the state as it was saved", Check.state(() -> restored(steps)), then);
+            CHECK.text("it goes on as before", Check.state(() -> changed(restored(steps), steps)), later);
+        }
+    }
+
+    /** Returns a machine that has gone through some changes, with a snapshot ahead of each. */
+    private static PlacerHead behind(int steps) {
         PlacerHead x = Check.machine(TEXT);
         x.splice(0, 2);
         x.splice(1, 3);
         x.takeReel(1);
-        for (int i = 0; i < 12; i++) {
+        for (int i = 0; i < steps; i++) {
             x.run(6);
-            String then = Check.state(x);
             x.saveSnapshot(i % 2);
             change(x, i);
-            String later = Check.state(x);
-            CHECK.no("the state has changed", then.equals(later));
-            x.restoreSnapshot(i % 2);
-            CHECK.yes("the state is as it was saved", then.equals(Check.state(x)));
-            change(x, i);
-            CHECK.yes("it goes on as before", later.equals(Check.state(x)));
         }
+        x.run(6);
+        return x;
+    }
+
+    private static PlacerHead changed(PlacerHead x, int i) {
+        change(x, i);
+        return x;
+    }
+
+    private static PlacerHead restored(int steps) {
+        PlacerHead x = behind(steps);
+        x.saveSnapshot(steps % 2);
+        change(x, steps);
+        x.restoreSnapshot(steps % 2);
+        return x;
     }
 
     private static void change(PlacerHead x, int i) {
@@ -88,23 +108,31 @@ public final class SnapshotTests {
     }
 
     private static void promise63Layouts() {
-        PlacerHead x = Check.machine(TEXT);
-        x.run(7);
-        String then = Check.state(x);
-        x.saveSnapshot(0);
-        Check.type(x, "machine 4 1; nozzles 1 1 1; kind 2; kind 1; kind 0; feeder 2 5 5 5; feeder 0 7 7 7; feeder 1 8 8 8;"
-            + "spot 2 9 9; spot 1 9 9; spot 2 9 9; spot 0 9 9; spot 0 9 9; before 4 0; before 3 1; before 0 2");
-        CHECK.same("load()", x.load(), 5);
-        x.run(20);
-        String other = Check.state(x);
-        x.saveSnapshot(1);
-        x.restoreSnapshot(0);
-        CHECK.yes("the first description", then.equals(Check.state(x)));
+        String first = Check.state(() -> ofTwoLayouts(0));
+        String second = Check.state(() -> ofTwoLayouts(1));
+        CHECK.text("the first description", Check.state(() -> ofTwoLayouts(2)), first);
+        CHECK.text("the second description", Check.state(() -> ofTwoLayouts(3)), second);
+        CHECK.text("the first description again", Check.state(() -> ofTwoLayouts(4)), first);
+        PlacerHead x = ofTwoLayouts(2);
         CHECK.index("spotValue(4, 0)", () -> x.spotValue(4, 0));
         CHECK.index("spindleValue(2, 0)", () -> x.spindleValue(2, 0));
-        x.restoreSnapshot(1);
-        CHECK.yes("the second description", other.equals(Check.state(x)));
-        x.restoreSnapshot(0);
-        CHECK.yes("the first description again", then.equals(Check.state(x)));
+    }
+
+    /** Saves a machine in slot 0 and another one in slot 1, and restores one, the other and the one again: so many of these steps. */
+    private static PlacerHead ofTwoLayouts(int steps) {
+        PlacerHead x = Check.machine(TEXT);
+        x.run(7);
+        x.saveSnapshot(0);
+        if (steps > 0) {
+            Check.type(x, "machine 4 1; nozzles 1 1 1; kind 2; kind 1; kind 0; feeder 2 5 5 5; feeder 0 7 7 7; feeder 1 8 8 8;"
+                + "spot 2 9 9; spot 1 9 9; spot 2 9 9; spot 0 9 9; spot 0 9 9; before 4 0; before 3 1; before 0 2");
+            CHECK.same("load()", x.load(), 5);
+            x.run(20);
+            x.saveSnapshot(1);
+        }
+        for (int i = 2; i <= steps; i++) {
+            x.restoreSnapshot(i % 2);
+        }
+        return x;
     }
 }
