@@ -12,6 +12,7 @@ public final class DescriptionTests {
         promise3Circles();
         promise3Statements();
         promise3Bytes();
+        promise3Length();
         promise3FirstError();
         promise3Defaults();
         promise3BeginsAnew();
@@ -343,6 +344,34 @@ public final class DescriptionTests {
         wrong(2, "machine 1 1;vision 100 |1 0");
         wrong(2, "machine 1 1;vision 0 |101 0");
         wrong(2, "machine 1 1;vision 0 100 0;vision 60 |41 0");
+    }
+
+    /** The text ends at its length: what an earlier text had behind it is not read, and nothing is behind 900 bytes. */
+    private static void promise3Length() {
+        String text = "machine 2 34; times 10 20 30 40; nozzles 1 2; kind 1; feeder 0 77 88 9; spot 0 123 45; spot 0 67 8; before 0 1; seed 12";
+        for (int length = 0; length <= text.length(); length++) {
+            String begun = text.substring(0, length);
+            PlacerHead fresh = new PlacerHead();
+            Check.type(fresh, begun);
+            PlacerHead used = Check.machine(text);
+            Check.type(used, begun);
+            CHECK.same("load() of \"" + begun + "\" behind a longer text", used.load(), fresh.load());
+            CHECK.same("loadError() of \"" + begun + "\" behind a longer text", used.loadError(), fresh.loadError());
+        }
+        PlacerHead x = Check.machine("machine 2 34;seed 12");
+        Check.type(x, "machine 2 34;see");
+        CHECK.same("load() of a word that was whole before", x.load(), -113);
+        Check.type(x, "machine 1 3");
+        CHECK.same("load() of a number that was longer before", x.load(), 0);
+        CHECK.same("setting(0)", x.setting(0), 3);
+        String spaces = "machine 2 34;" + " ".repeat(880);
+        wrong(1, spaces + "    |see");
+        wrong(1, spaces + "   seed|");
+        wrong(1, spaces + "  seed |");
+        wrong(1, spaces + "seed   |");
+        wrong(1, spaces + "seed 7;|");
+        wrong(1, spaces + "seed 7|x");
+        CHECK.same("setting(10) of 900 bytes", right(spaces + "seed 77", 0).setting(10), 77);
     }
 
     /** The text is read from left to right; the first error ends it, whatever comes behind. */

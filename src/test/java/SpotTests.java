@@ -10,6 +10,7 @@ public final class SpotTests {
         promise20();
         promise20Full();
         promise21();
+        promise21EachOne();
         promise22();
         promise23();
         promise24();
@@ -144,6 +145,28 @@ public final class SpotTests {
         CHECK.index("dropBefore(0, 4)", () -> x.dropBefore(0, 4));
         CHECK.index("dropBefore(-1, 0)", () -> x.dropBefore(-1, 0));
         CHECK.index("dropBefore(0, -1)", () -> x.dropBefore(0, -1));
+    }
+
+    /** The pair that is named is the one that is taken away, in whatever order they were told. */
+    private static void promise21EachOne() {
+        int[][] pairs = {{3, 1}, {0, 2}, {4, 1}, {2, 4}, {0, 4}};
+        for (int[] dropped : pairs) {
+            PlacerHead x = Check.machine(BOARD + "spot 0 1 1; spot 0 1 1; spot 0 1 1; spot 0 1 1; spot 0 1 1");
+            for (int i = 0; i < pairs.length; i++) {
+                CHECK.same("addBefore of pair " + i, x.addBefore(pairs[i][0], pairs[i][1]), i + 1);
+            }
+            String call = "dropBefore(" + dropped[0] + ", " + dropped[1] + ")";
+            CHECK.yes(call, x.dropBefore(dropped[0], dropped[1]));
+            CHECK.same("count(5) behind " + call, x.count(5), 4);
+            for (int spot = 0; spot < 5; spot++) {
+                long due = 0;
+                for (int[] pair : pairs) {
+                    due |= pair[1] == spot && pair != dropped ? 1L << pair[0] : 0;
+                }
+                CHECK.same("blockedBy(" + spot + ") behind " + call, x.blockedBy(spot), due);
+            }
+            CHECK.no(call + " again", x.dropBefore(dropped[0], dropped[1]));
+        }
     }
 
     private static void promise22() {
