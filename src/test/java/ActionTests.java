@@ -16,6 +16,7 @@ public final class ActionTests {
         promise34Worn();
         promise34Looks();
         promise34Places();
+        promise34Ways();
         promise35();
         promise36();
         promise37();
@@ -285,6 +286,21 @@ public final class ActionTests {
         y.leaveOut(0, true);
         plan(y, "discards", 30000, 30100, 50000, 40101);
         CHECK.same("nextAction() at the end", y.nextAction(), PlacerHead.NONE);
+    }
+
+    /** The time of a move is that of the greater one of both differences, in each direction. */
+    private static void promise34Ways() {
+        int[] ways = {-41, -9, 0, 30};
+        for (int number = 0; number < 256; number++) {
+            int[] to = {ways[number % 4], ways[number / 4 % 4], ways[number / 16 % 4], ways[number / 64]};
+            PlacerHead x = Check.machine("machine 1 10; vision 100 0 0; camera 300 200; nozzles 1; kind 0; feeder 0 100 9 0; spot 0 "
+                + (300 + to[0]) + " " + (200 + to[1]) + "; spot 0 " + (300 + to[2]) + " " + (200 + to[3]));
+            x.run(3);
+            int first = (Math.max(Math.abs(to[0]), Math.abs(to[1])) + 9) / 10;
+            int second = (Math.max(Math.abs(to[2]), Math.abs(to[3])) + 9) / 10;
+            String call = "nextAction() with spots " + first + " and " + second + " away";
+            CHECK.same(call, x.nextAction(), first <= second ? 40000 : 40001);
+        }
     }
 
     private static void promise35() {

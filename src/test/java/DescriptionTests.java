@@ -8,11 +8,13 @@ public final class DescriptionTests {
         promise3Right();
         promise3Words();
         promise3Ranges();
+        promise3NotTold();
         promise3Limits();
         promise3Circles();
         promise3Statements();
         promise3Bytes();
         promise3Length();
+        promise3Many();
         promise3FirstError();
         promise3Defaults();
         promise3BeginsAnew();
@@ -238,6 +240,20 @@ public final class DescriptionTests {
         wrong(2, kinds + "spot 0 1 1; spot 0 1 1; before 1 |2; spot 0 1 1");
     }
 
+    /** Types, kinds and spots that were not told, far from those that were. */
+    private static void promise3NotTold() {
+        String some = "machine 1 1; nozzles 1; kind 0; spot 0 1 1; spot 0 1 1; ";
+        String[] numbers = {"2", "6", "8", "10", "32", "39", "40", "63", "64", "65", "128", "256", "900", "65536", "999999", "2147483647",
+            "2147483648", "4294967296", "18446744073709551616"};
+        for (String number : numbers) {
+            wrong(2, some.replace("kind 0", "kind |" + number));
+            wrong(2, some + "feeder |" + number + " 0 0 0");
+            wrong(2, some + "spot |" + number + " 0 0");
+            wrong(2, some + "before |" + number + " 0");
+            wrong(2, some + "before 1 |" + number);
+        }
+    }
+
     private static void promise3Limits() {
         right("machine 1 1; nozzles 1 1 1 1 1; nozzles 4", 0);
         wrong(3, "machine 1 1; nozzles 1 1 1 1 1 1 |1");
@@ -321,6 +337,9 @@ public final class DescriptionTests {
             wrong(1, "machine |" + sign + "1 1");
             wrong(1, "machine 1|" + sign + "1");
             wrong(1, "machine 1 1|" + sign);
+            wrong(1, "machine|" + sign + "1 1");
+            wrong(1, "machine 1 1;seed|" + sign + "1");
+            wrong(1, "machine 1 1;seed|" + sign);
             wrong(1, "machine 1 1;|" + sign + "seed 1");
             wrong(1, "machine 1 1;seed 1|" + sign + ";");
         }
@@ -372,6 +391,37 @@ public final class DescriptionTests {
         wrong(1, spaces + "seed 7;|");
         wrong(1, spaces + "seed 7|x");
         CHECK.same("setting(10) of 900 bytes", right(spaces + "seed 77", 0).setting(10), 77);
+    }
+
+    /** As many kinds, feeders and spots as there may be, each with numbers of its own. */
+    private static void promise3Many() {
+        StringBuilder text = new StringBuilder("machine 4 1;nozzles 1 2 3 4 1 2");
+        for (int i = 0; i < 8; i++) {
+            text.append(";kind ").append(i * 5 % 6);
+        }
+        for (int i = 0; i < 10; i++) {
+            text.append(";feeder ").append(i * 3 % 8).append(' ').append(90 + i).append(' ').append(20 + i).append(' ').append(70 + i);
+        }
+        for (int i = 0; i < 40; i++) {
+            text.append(";spot ").append(i * 3 % 8).append(' ').append(100 + i).append(' ').append(500 - i);
+        }
+        PlacerHead x = right(text.toString(), 40);
+        for (int i = 0; i < 8; i++) {
+            CHECK.same("nozzleFor(" + i + ") of 8", x.nozzleFor(i), i * 5 % 6);
+            CHECK.same("openSpots(" + i + ") of 8", x.openSpots(i), 5);
+        }
+        for (int i = 0; i < 10; i++) {
+            int[] due = {i * 3 % 8, 90 + i, 20 + i, 70 + i, 0, 0, 0, 0};
+            for (int what = 0; what <= 7; what++) {
+                CHECK.same("feederValue(" + i + ", " + what + ") of 10", x.feederValue(i, what), due[what]);
+            }
+        }
+        for (int i = 0; i < 40; i++) {
+            int[] due = {i * 3 % 8, 100 + i, 500 - i, 0, PlacerHead.NONE, PlacerHead.NONE};
+            for (int what = 0; what <= 5; what++) {
+                CHECK.same("spotValue(" + i + ", " + what + ") of 40", x.spotValue(i, what), due[what]);
+            }
+        }
     }
 
     /** The text is read from left to right; the first error ends it, whatever comes behind. */

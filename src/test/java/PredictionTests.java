@@ -309,10 +309,25 @@ public final class PredictionTests {
         z.set(7, 0);
         CHECK.same("timeAtEnd() with RETRIES 0", z.timeAtEnd(), 200);
         CHECK.same("filledAtEnd() with RETRIES 0", z.filledAtEnd(), 1);
+        mostSpotsNotTheGreatest();
         PlacerHead none = rejects(600);
         CHECK.same("bestRetries() without an end in 1000 actions", none.bestRetries(), 0);
         none.set(6, 100);
         CHECK.same("bestRetries() without an end, the earliest time behind 1000 actions", none.bestRetries(), 0);
+    }
+
+    /** Spots 0 and 1 with RETRIES from 1 on, spot 2 alone with RETRIES 0. */
+    private static void mostSpotsNotTheGreatest() {
+        int seed = Check.seedFor(0, 99, 50, 79, 0, 49, 50, 99, 0, 49, 0, 49, 80, 99);
+        PlacerHead x = Check.machine(LINE + "kind 0; vision 50 30 0; seed " + seed + "; feeder 0 10 2 0; feeder 1 10 1 0;"
+            + "spot 0 30 0; spot 0 30 0; spot 1 30 0");
+        PlacerHead y = Check.machine(LINE + "kind 0; vision 50 30 1; seed " + seed + "; feeder 0 10 2 0; feeder 1 10 1 0;"
+            + "spot 0 30 0; spot 0 30 0; spot 1 30 0");
+        CHECK.same("bestRetries(), two spots", x.bestRetries(), 1);
+        x.run(500);
+        CHECK.same("filledSet() with RETRIES 0", x.filledSet(), 4);
+        y.run(500);
+        CHECK.same("filledSet() with RETRIES 1", y.filledSet(), 3);
     }
 
     private static void promise58() {
@@ -375,6 +390,16 @@ public final class PredictionTests {
         y.resume();
         y.set(5, 100);
         CHECK.same("bestSwap(), not halted", y.bestSwap(), 1);
+        // the feeder from which each pick fails is the nearest one behind the exchange
+        PlacerHead z = Check.machine(LINE + "feeder 0 10 9 0; feeder 0 20 500 100; spot 0 20 0");
+        for (int i = 0; i < 3; i++) {
+            z.splice(1, 500);
+        }
+        CHECK.same("bestSwap(), with which the plan does not end", z.bestSwap(), PlacerHead.NONE);
+        z.moveFeeder(0, 20);
+        z.moveFeeder(1, 10);
+        CHECK.same("timeAtEnd() with the exchange", z.timeAtEnd(), PlacerHead.NONE);
+        CHECK.same("bestSwap(), as the plan does not end without it", z.bestSwap(), PlacerHead.NONE);
     }
 
     private static void promise60() {

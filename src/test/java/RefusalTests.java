@@ -282,7 +282,11 @@ public final class RefusalTests {
         refused(x, "look(0), no part", at -> at.look(0), PlacerHead.WRONG_STATE);
         refused(x, "place(0, 0), no part", at -> at.place(0, 0), PlacerHead.WRONG_STATE);
         refused(x, "discard(0), no part", at -> at.discard(0), PlacerHead.WRONG_STATE);
-        Supplier<PlacerHead> picked = behind(x, at -> at.changeNozzle(0, 0), at -> at.pick(0, 0));
+        Supplier<PlacerHead> without = behind(x, at -> at.changeNozzle(0, 0));
+        refused(without, "look(0), a nozzle, but no part", at -> at.look(0), PlacerHead.WRONG_STATE);
+        refused(without, "place(0, 0), a nozzle, but no part", at -> at.place(0, 0), PlacerHead.WRONG_STATE);
+        refused(without, "discard(0), a nozzle, but no part", at -> at.discard(0), PlacerHead.WRONG_STATE);
+        Supplier<PlacerHead> picked = behind(without, at -> at.pick(0, 0));
         refused(picked, "place(0, 0), not ready", at -> at.place(0, 0), PlacerHead.WRONG_STATE);
         Supplier<PlacerHead> ready = behind(picked, at -> at.look(0));
         refused(ready, "look(0), ready", at -> at.look(0), PlacerHead.WRONG_STATE);

@@ -1,3 +1,5 @@
+import java.util.function.BiConsumer;
+
 /** Promises 62 and 63: snapshots. */
 public final class SnapshotTests {
     private static final Check CHECK = new Check("SnapshotTests");
@@ -9,6 +11,9 @@ public final class SnapshotTests {
         promise63();
         promise63Whole();
         promise63Layouts();
+        promise63Numbers();
+        promise63Predictions();
+        promise63Filled();
         CHECK.end();
     }
 
@@ -134,5 +139,122 @@ public final class SnapshotTests {
             x.restoreSnapshot(i % 2);
         }
         return x;
+    }
+
+    /** Restores one description behind the load of another one. */
+    private static PlacerHead restored(String text, String loaded) {
+        PlacerHead x = Check.machine(text);
+        x.saveSnapshot(1);
+        Check.type(x, loaded);
+        x.load();
+        x.restoreSnapshot(1);
+        return x;
+    }
+
+    private static final String SMALL = "machine 1 10; nozzles 1 1; kind 1; feeder 0 5 5 0; spot 0 5 5";
+    private static final String LARGE = "machine 3 10; nozzles 1 2 3 3; kind 0; kind 1; kind 2; feeder 2 5 5 0; feeder 2 5 5 0; feeder 0 5 5 0;"
+        + "spot 2 5 5; spot 1 5 5; spot 0 5 5; before 0 1";
+
+    /** Spindles, types, kinds, feeders and spots are those of the snapshot, whatever was loaded between. */
+    private static void promise63Numbers() {
+        PlacerHead x = restored(SMALL, LARGE);
+        numbers(x, (call, run) -> CHECK.index(call + ", of the large one", run));
+        PlacerHead y = restored(LARGE, SMALL);
+        numbers(y, (call, run) -> {
+            run.run();
+            CHECK.yes(call + ", which is there again", true);
+        });
+        PlacerHead z = restored(SMALL, LARGE);
+        z.changeNozzle(0, 1);
+        CHECK.same("pick(0, 0) of what needs type 1", z.pick(0, 0), 1);
+    }
+
+    /** Calls with numbers that the large description has and the small one has not. */
+    private static void numbers(PlacerHead x, BiConsumer<String, Runnable> check) {
+        check.accept("spindleValue(2, 0)", () -> x.spindleValue(2, 0));
+        check.accept("freeNozzles(3)", () -> x.freeNozzles(3));
+        check.accept("nozzleFor(2)", () -> x.nozzleFor(2));
+        check.accept("feederValue(2, 0)", () -> x.feederValue(2, 0));
+        check.accept("splice(2, 1)", () -> x.splice(2, 1));
+        check.accept("takeReel(2)", () -> x.takeReel(2));
+        check.accept("setMiss(2, 0)", () -> x.setMiss(2, 0));
+        check.accept("moveFeeder(2, 0)", () -> x.moveFeeder(2, 0));
+        check.accept("nearestFeeder(2)", () -> x.nearestFeeder(2));
+        check.accept("spotValue(2, 0)", () -> x.spotValue(2, 0));
+        check.accept("leaveOut(2, true)", () -> x.leaveOut(2, true));
+        check.accept("openSpots(2)", () -> x.openSpots(2));
+        check.accept("addBefore(0, 2)", () -> x.addBefore(0, 2));
+        check.accept("addBefore(2, 0)", () -> x.addBefore(2, 0));
+        check.accept("dropBefore(0, 2)", () -> x.dropBefore(0, 2));
+        check.accept("dropBefore(2, 0)", () -> x.dropBefore(2, 0));
+        check.accept("blockedBy(2)", () -> x.blockedBy(2));
+        check.accept("chain(2)", () -> x.chain(2));
+        check.accept("changeNozzle(0, 3)", () -> x.changeNozzle(0, 3));
+        check.accept("changeNozzle(2, 0)", () -> x.changeNozzle(2, 0));
+        check.accept("pick(0, 2)", () -> x.pick(0, 2));
+        check.accept("pick(2, 0)", () -> x.pick(2, 0));
+        check.accept("look(2)", () -> x.look(2));
+        check.accept("place(0, 2)", () -> x.place(0, 2));
+        check.accept("place(2, 0)", () -> x.place(2, 0));
+        check.accept("discard(2)", () -> x.discard(2));
+        check.accept("clean(2)", () -> x.clean(2));
+        check.accept("ledger(2, 0)", () -> x.ledger(2, 0));
+        check.accept("shortage(2)", () -> x.shortage(2));
+        check.accept("shortageFor(2, 1)", () -> x.shortageFor(2, 1));
+        check.accept("runsOut(2)", () -> x.runsOut(2));
+    }
+
+    /** Predictions, asked first behind restoreSnapshot(int), are those of the snapshot. */
+    private static void promise63Predictions() {
+        CHECK.same("runsOut(2)", restored(LARGE, SMALL).runsOut(2), PlacerHead.NONE);
+        CHECK.same("shortage(2)", restored(LARGE, SMALL).shortage(2), 0);
+        CHECK.same("boardsPossible()", restored(LARGE, SMALL).boardsPossible(), 0);
+        CHECK.same("boardsPossible()", restored(SMALL, LARGE).boardsPossible(), 5);
+        CHECK.same("dearestSpot()", restored(LARGE, "machine 1 1").dearestSpot(), Check.machine(LARGE).dearestSpot());
+        CHECK.same("dearestSpot()", restored("machine 1 1", LARGE).dearestSpot(), PlacerHead.NONE);
+        CHECK.same("bestSwap()", restored("machine 1 1", LARGE).bestSwap(), PlacerHead.NONE);
+        CHECK.same("timeAtEnd()", restored(LARGE, SMALL).timeAtEnd(), Check.machine(LARGE).timeAtEnd());
+        CHECK.same("timeAtEnd()", restored(SMALL, LARGE).timeAtEnd(), Check.machine(SMALL).timeAtEnd());
+    }
+
+    /** 40 spots, with their times and spindles. */
+    private static PlacerHead filled() {
+        StringBuilder text = new StringBuilder("machine 4 7; nozzles 4");
+        for (int i = 0; i < 8; i++) {
+            text.append(";kind 0;feeder ").append(i).append(' ').append(50 * i).append(" 99 5");
+        }
+        for (int i = 0; i < 40; i++) {
+            text.append(";spot ").append(i * 3 % 8).append(' ').append(10 * i).append(' ').append(i * 17 % 40);
+        }
+        PlacerHead x = Check.machine(text.toString());
+        x.run(500);
+        return x;
+    }
+
+    private static PlacerHead filledAgain(boolean restored) {
+        PlacerHead x = filled();
+        x.saveSnapshot(0);
+        x.newBoard();
+        // as the times of moves are other ones, other spots are the nearest
+        x.set(0, 50);
+        x.run(500);
+        if (restored) {
+            x.restoreSnapshot(0);
+        }
+        return x;
+    }
+
+    private static void promise63Filled() {
+        CHECK.same("filledSet()", filled().filledSet(), (1L << 40) - 1);
+        String then = Check.state(SnapshotTests::filled);
+        CHECK.text("all spots as they were saved", Check.state(() -> filledAgain(true)), then);
+        PlacerHead x = filled();
+        PlacerHead y = filledAgain(false);
+        int others = 0;
+        for (int spot = 0; spot < 40; spot++) {
+            CHECK.yes("spotValue(" + spot + ", 4) is later on the second board", y.spotValue(spot, 4) > x.now());
+            others += spot >= 8 && y.spotValue(spot, 5) != x.spotValue(spot, 5) ? 1 : 0;
+        }
+        CHECK.yes("other spindles on the second board", others > 0);
     }
 }
